@@ -260,6 +260,7 @@ public final class PostRoom {
         static final int NUMBER = 3;
         static final int LONGEST_NAME = 12;
         static final int LONGEST_NUMBER = 9;
+        static final int DIGIT = 27;
         static final String SIGNS = ";,=<+-*/%(){}[]@";
 
         final char[] signs;
@@ -295,7 +296,7 @@ public final class PostRoom {
             if (sign >= 'a' && sign <= 'z') {
                 return sign - 'a' + 1;
             }
-            return sign >= '0' && sign <= '9' ? sign - '0' + 27 : 0;
+            return sign >= '0' && sign <= '9' ? sign - '0' + DIGIT : 0;
         }
 
         void rewind() {
@@ -311,68 +312,46 @@ public final class PostRoom {
             start = at;
             value = 0;
             name = 0;
-            if (at >= length) {
+            boolean isNumber = at < length && codeOf(signs[at]) >= DIGIT;
+            int leastCode = isNumber ? DIGIT : 1;
+            while (at < length && codeOf(signs[at]) >= leastCode) {
+                int code = codeOf(signs[at]);
+                value = isNumber ? value * 10 + code - DIGIT : 0;
+                name = name * 37 + code;
+                at++;
+            }
+            stop = at;
+            if (start >= length) {
                 kind = END;
-                stop = at;
-            } else if (codeOf(signs[at]) >= 27) {
-                scanNumber();
-            } else if (codeOf(signs[at]) > 0) {
-                scanName();
+            } else if (stop == start) {
+                kind = SIGNS.indexOf(signs[start]) >= 0 ? signs[start] : BAD;
+                stop = start + 1;
+            } else if (isNumber) {
+                kind = stop - start > LONGEST_NUMBER ? BAD : NUMBER;
             } else {
-                kind = SIGNS.indexOf(signs[at]) >= 0 ? signs[at] : BAD;
-                stop = at + 1;
+                kind = stop - start > LONGEST_NAME ? BAD : NAME;
             }
         }
 
-        void scanNumber() {
-            int at = start;
-            while (at < length && codeOf(signs[at]) >= 27) {
-                value = value * 10 + signs[at] - '0';
-                at++;
-            }
-            stop = at;
-            kind = stop - start > LONGEST_NUMBER ? BAD : NUMBER;
-        }
-
-        void scanName() {
-            int at = start;
-            while (at < length && codeOf(signs[at]) > 0) {
-                name = name * 37 + codeOf(signs[at]);
-                at++;
-            }
-            stop = at;
-            kind = stop - start > LONGEST_NAME ? BAD : NAME;
-        }
-
-        /** Which of the words, that are parted by one blank each, the TOKEN is. */
+        /** Which of the words, of small letters and parted by one blank each, the TOKEN is. */
         int wordIn(String words) {
             if (kind != NAME) {
                 return NONE;
             }
             int index = 0;
-            int from = 0;
-            for (int at = 0; at <= words.length(); at++) {
-                if (at == words.length() || words.charAt(at) == ' ') {
-                    if (spells(words, from, at)) {
-                        return index;
-                    }
+            long word = 0;
+            for (int at = 0; at < words.length(); at++) {
+                char sign = words.charAt(at);
+                if (sign != ' ') {
+                    word = word * 37 + sign - 'a' + 1;
+                } else if (word == name) {
+                    return index;
+                } else {
                     index++;
-                    from = at + 1;
+                    word = 0;
                 }
             }
-            return NONE;
-        }
-
-        boolean spells(String words, int from, int to) {
-            if (to - from != stop - start) {
-                return false;
-            }
-            for (int i = 0; i < to - from; i++) {
-                if (words.charAt(from + i) != signs[start + i]) {
-                    return false;
-                }
-            }
-            return true;
+            return word == name ? index : NONE;
         }
 
         /** Puts the TOKEN's codes behind others in a row that has room for them; where they end. */
@@ -651,24 +630,18 @@ public final class PostRoom {
         int readAll() {
             fault = 0;
             tape.rewind();
-            for (int i = 0; i < Tape.MOST && tape.kind != Tape.END; i++) {
-                if (!readStatement()) {
-                    return fault;
+            for (int i = 0; i < Tape.MOST && fault == 0 && tape.kind != Tape.END; i++) {
+                switch (tape.wordIn("office short street service coach")) {
+                    case 0: readOffice(); break;
+                    case 1: readShort(); break;
+                    case 2: readStreet(); break;
+                    case 3: readService(); break;
+                    case 4: readCoach(); break;
+                    default: fails(WRONG); break;
                 }
                 tape.advance();
             }
-            return 0;
-        }
-
-        boolean readStatement() {
-            switch (tape.wordIn("office short street service coach")) {
-                case 0: return readOffice();
-                case 1: return readShort();
-                case 2: return readStreet();
-                case 3: return readService();
-                case 4: return readCoach();
-                default: return fails(WRONG);
-            }
+            return fault;
         }
 
         boolean fails(int kind) {
@@ -1539,12 +1512,7 @@ public final class PostRoom {
 
         int wayComes(int from, int to) {
             workOutWays(from);
-            return from == to || wayBegins[to] == NONE ? NONE : wayEnds[to];
-        }
-
-        int wayCoach(int from, int to) {
-            workOutWays(from);
-            return from == to ? NONE : wayBegins[to];
+            return wayBegins[to] == NONE ? NONE : wayEnds[to];
         }
 
         /** Kept until another office or minute is asked for: a run may ask very often for the same. */
@@ -1562,6 +1530,7 @@ public final class PostRoom {
                     keepEarlier(i);
                 }
             }
+            wayBegins[from] = NONE;
         }
 
         /** Each first coach is tried by itself: one that comes later ahead may still reach the same coach behind. */
@@ -1572,21 +1541,14 @@ public final class PostRoom {
             for (int round = 0; round < Book.MOST_OFFICES && isNew; round++) {
                 isNew = false;
                 for (int i = 0; i < book.coaches.size(); i++) {
-                    isNew |= rideOn(book.coaches.get(i));
+                    Coach coach = book.coaches.get(i);
+                    if (comes[coach.from] <= clock + FARTHEST) {
+                        int time = coach.timeBehind(comes[coach.from]) + coach.takes;
+                        isNew |= time < comes[coach.to];
+                        comes[coach.to] = Math.min(comes[coach.to], time);
+                    }
                 }
             }
-        }
-
-        boolean rideOn(Coach coach) {
-            if (comes[coach.from] > clock + FARTHEST) {
-                return false;
-            }
-            int time = coach.timeBehind(comes[coach.from]) + coach.takes;
-            if (time >= comes[coach.to]) {
-                return false;
-            }
-            comes[coach.to] = time;
-            return true;
         }
 
         void keepEarlier(int coach) {
@@ -1600,11 +1562,12 @@ public final class PostRoom {
 
         int sortShelf(int office) {
             ArrayList<Item> shelf = book.offices.get(office).shelf;
+            workOutWays(office);
             int sum = 0;
             int at = 0;
             for (int left = shelf.size(); left > 0; left--) {
                 Item item = shelf.get(at);
-                int coach = wayCoach(office, goal(item));
+                int coach = wayBegins[goal(item)];
                 if (coach == NONE) {
                     at++;
                 } else {
@@ -1839,11 +1802,8 @@ public final class PostRoom {
         static final int REGISTER = WORD + 31;
         static final int TRUTHS = WORD + 32;
         static final int REGISTERS = WORD + 43;
-        static final String STATEMENT_WORDS = "make drop same put lay slide bag refuse stop if else while try on always";
-        static final String UNIT_WORDS = "len sort at code weight kind next is many here time";
-        static final String ITEM_WORDS = "none shelf item letter parcel register";
-        static final String ROW_WORDS =
-            "truths bytes signs shorts ints longs floats doubles items letters parcels registers";
+        /** In one text, since the rules leave no joining of texts: their order is that of the numbers above. */
+        static final String WORDS = "make drop same put lay slide bag refuse stop if else while try on always len sort at code weight kind next is many here time none shelf item letter parcel register truths bytes signs shorts ints longs floats doubles items letters parcels registers";
         static final int WRONG = 1;
         static final int RANGE = 4;
         static final int DEEP = 5;
@@ -1891,33 +1851,20 @@ public final class PostRoom {
 
         void look() {
             kind = tape.kind;
-            if (kind == Tape.NAME) {
-                kind = kindOfName();
+            if (kind != Tape.NAME) {
+                return;
             }
-        }
-
-        int kindOfName() {
-            if (tape.stop - tape.start == 2) {
+            int word = tape.wordIn(WORDS);
+            if (word != NONE) {
+                kind = WORD + word;
+            } else if (tape.stop - tape.start == 2) {
                 char letter = tape.signs[tape.start];
                 int digit = tape.signs[tape.start + 1] - '0';
-                if (letter == 'r' && digit >= 0 && digit <= 9) {
-                    tape.value = digit;
-                    return REG;
-                }
-                if (letter == 'x' && digit >= 0 && digit <= 3) {
-                    tape.value = digit;
-                    return HAND;
-                }
+                boolean isReg = letter == 'r' && digit >= 0 && digit <= 9;
+                boolean isHand = letter == 'x' && digit >= 0 && digit <= 3;
+                tape.value = isReg || isHand ? digit : 0;
+                kind = isReg ? REG : isHand ? HAND : Tape.NAME;
             }
-            int word = wordOf(STATEMENT_WORDS, MAKE, Tape.NAME);
-            word = wordOf(UNIT_WORDS, LEN, word);
-            word = wordOf(ITEM_WORDS, NO_ITEM, word);
-            return wordOf(ROW_WORDS, TRUTHS, word);
-        }
-
-        int wordOf(String words, int first, int other) {
-            int word = tape.wordIn(words);
-            return word == NONE ? other : first + word;
         }
 
         boolean push() {
@@ -2495,10 +2442,18 @@ public final class PostRoom {
             }
         }
 
+        /** No programme that was read is deeper than this lets it be. */
+        boolean isTooDeep(int depth) {
+            if (depth >= Script.DEEPEST) {
+                ended = CUT;
+            }
+            return depth >= Script.DEEPEST;
+        }
+
         void doBlock(int depth) {
             int close = script.valueAt(at);
             at++;
-            for (int i = 0; i < Tape.MOST && isGoing() && at < close; i++) {
+            for (int i = 0; i < Tape.MOST && !isTooDeep(depth) && isGoing() && at < close; i++) {
                 doStatement(depth + 1);
             }
             at = close + 1;
@@ -2635,6 +2590,9 @@ public final class PostRoom {
         }
 
         long unit(int depth) {
+            if (isTooDeep(depth)) {
+                return 0;
+            }
             int kind = peek();
             int value = script.valueAt(at);
             at++;
@@ -2716,12 +2674,20 @@ public final class PostRoom {
                 case Script.CODE: return post.book.offices.get(post.goal(item)).code;
                 case Script.WEIGHT: return item.weight;
                 case Script.KIND: return item.service;
-                default: return begins() ? post.wayCoach(here, post.goal(item)) : 0;
+                default: return begins() ? nextCoach(item) : 0;
             }
+        }
+
+        int nextCoach(Item item) {
+            post.workOutWays(here);
+            return post.wayBegins[post.goal(item)];
         }
 
         /** An ITEM's number, or NONE; NONE, too, if it is refused. */
         int itemTold(int depth) {
+            if (isTooDeep(depth)) {
+                return NONE;
+            }
             int kind = peek();
             int value = script.valueAt(at);
             at++;
