@@ -1713,7 +1713,9 @@ public final class PostRoom {
         void workOutWalk() {
             for (int set = 0; set < 1 << stops; set++) {
                 for (int at = 0; at < stops; at++) {
-                    leastRest[set * MOST_STOPS + at] = set == 0 ? between(at, stops) : leastFrom(at, set);
+                    if ((set >> at & 1) == 0) {
+                        leastRest[set * MOST_STOPS + at] = set == 0 ? between(at, stops) : leastFrom(at, set);
+                    }
                 }
             }
         }
@@ -2284,7 +2286,7 @@ public final class PostRoom {
             }
         }
 
-        /** A tray and the number in brackets behind it; the number is kept by the caller. */
+        /** The number in the brackets behind a TRAY. */
         long spotTold(int depth) {
             at++;
             long spot = expression(depth);
@@ -2453,7 +2455,8 @@ public final class PostRoom {
         void doBlock(int depth) {
             int close = script.valueAt(at);
             at++;
-            for (int i = 0; i < Tape.MOST && !isTooDeep(depth) && isGoing() && at < close; i++) {
+            boolean isOpen = !isTooDeep(depth);
+            for (int i = 0; i < Tape.MOST && isOpen && isGoing() && at < close; i++) {
                 doStatement(depth + 1);
             }
             at = close + 1;
@@ -2674,11 +2677,11 @@ public final class PostRoom {
                 case Script.CODE: return post.book.offices.get(post.goal(item)).code;
                 case Script.WEIGHT: return item.weight;
                 case Script.KIND: return item.service;
-                default: return begins() ? nextCoach(item) : 0;
+                default: break;
             }
-        }
-
-        int nextCoach(Item item) {
+            if (!begins()) {
+                return 0;
+            }
             post.workOutWays(here);
             return post.wayBegins[post.goal(item)];
         }
