@@ -2452,6 +2452,7 @@ public final class PostRoom {
             return depth >= Script.DEEPEST;
         }
 
+        /** Whatever ends it, the place behind the BLOCK is next: what is done behind a try is found from there. */
         void doBlock(int depth) {
             int close = script.valueAt(at);
             at++;
@@ -2510,44 +2511,36 @@ public final class PostRoom {
         }
 
         void attempt(int depth) {
-            int behind = script.valueAt(at) + 1;
             doBlock(depth);
-            at = behind;
-            boolean isRefused = ended >= NOTHING && ended <= OWN;
             int refusal = ended;
+            boolean isRefused = refusal >= NOTHING && refusal <= OWN;
             for (int i = 0; i < Tape.MOST && peek() == Script.ON; i++) {
                 int which = script.valueAt(at + 1);
                 at += 2;
                 if (isRefused && (which == refusal || which == 0)) {
                     isRefused = false;
-                    behind = script.valueAt(at) + 1;
                     numbers[REG_OF_REFUSAL] = refusal == OWN ? own : refusal;
                     ended = GOING;
                     doBlock(depth);
-                    at = behind;
                 } else {
                     passBlock();
                 }
             }
-            if (peek() == Script.ALWAYS) {
+            if (peek() == Script.ALWAYS && ended != CUT && ended != FULL) {
                 at++;
                 doAlways(depth);
             }
         }
 
         void doAlways(int depth) {
-            int behind = script.valueAt(at) + 1;
-            if (ended != CUT && ended != FULL) {
-                int pending = ended;
-                long pendingOwn = own;
-                ended = GOING;
-                doBlock(depth);
-                if (isGoing()) {
-                    ended = pending;
-                    own = pendingOwn;
-                }
+            int pending = ended;
+            long pendingOwn = own;
+            ended = GOING;
+            doBlock(depth);
+            if (isGoing()) {
+                ended = pending;
+                own = pendingOwn;
             }
-            at = behind;
         }
 
         long expression(int depth) {

@@ -121,6 +121,9 @@ public final class AddressTest {
             "1 a1 a1 a1 a1 a1 a1 a1 a1 a1 a1 a1 a1 a1 a1 a1 a1 a1 a1 a1 a1 a1 a1 a1 a1 b"), -1);
         Due.is("as many words as can be", Due.find(room,
             "1 b b b b b b b b b b b b b b b b b b b b b b b b b b b b b b b b b b b b b b b"), -1);
+        PostRoom longest = Due.roomOf("office b 5 0 0;short a avenueavenue;street s in b from 1 to 9 at 0 0 e walk 0;");
+        Due.is("as long as can be", Due.find(longest,
+            "1 a a a a a a a a a a a a a a a a a a a a a a a a a a a a a a a a a a a a a a a"), -1);
         Due.is("a long word", Due.find(room,
             "1 aaaaaaaaaaaaaaaaaaaaaaaaaaaaaaaaaaaaaaaaaaaaaaaaaaaaaaaaaaaaaaaaaaaaaaaaaaaa b"), -1);
     }

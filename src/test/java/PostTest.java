@@ -8,6 +8,7 @@ public final class PostTest {
         laterFirstCoach();
         roundAboutTie();
         farthestWay();
+        longestWay();
         acceptance();
         ticks();
         sorting();
@@ -80,6 +81,22 @@ public final class PostTest {
         PostRoom other = Due.roomOf(text.toString().replace("takes 2880", "takes 2879"));
         Due.is("20160 minutes", other.way(0, 7), 20160);
         Due.is("20160 minutes and more", other.way(0, 8), -1);
+    }
+
+    /** All sixteen offices one behind the other, the coaches told from the last one on. */
+    private static void longestWay() {
+        StringBuilder text = new StringBuilder();
+        for (int i = 0; i < 16; i++) {
+            text.append("office o").append(i).append(" ").append(i + 1).append(" 0 0;");
+        }
+        for (int i = 14; i >= 0; i--) {
+            text.append("coach o").append(i).append(" o").append(i + 1).append(" first 0 every 1 last 1439 takes 9 holds 1;");
+        }
+        PostRoom room = Due.roomOf(text.toString());
+        for (int i = 1; i < 16; i++) {
+            Due.is("way to " + i, room.way(0, i), 10 * i);
+        }
+        Due.is("none back", room.way(15, 0), -1);
     }
 
     private static void acceptance() {
