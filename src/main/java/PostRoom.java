@@ -288,7 +288,6 @@ public final class PostRoom {
 
         void clear() {
             length = 0;
-            stop = 0;
         }
 
         /** 1 to 26 for letters, 27 to 36 for digits, 0 for all else: a packed NAME is a number of base 37 in these. */
@@ -1298,18 +1297,12 @@ public final class PostRoom {
             return sum;
         }
 
-        /** Leaves in column i a 1 in line i alone; false if there is none to be had. */
+        /** Leaves in column i a 1 in line i alone; powers of spots that differ never leave a 0 there. */
         static boolean clearColumn(int[][] lines, int i, int size) {
-            int pivot = i;
-            while (pivot < CHECKS && lines[pivot][i] == 0) {
-                pivot++;
-            }
-            if (pivot >= CHECKS) {
+            int[] line = lines[i];
+            if (line[i] == 0) {
                 return false;
             }
-            int[] line = lines[pivot];
-            lines[pivot] = lines[i];
-            lines[i] = line;
             int by = inverse(line[i]);
             for (int k = i; k <= size; k++) {
                 line[k] = times(line[k], by);

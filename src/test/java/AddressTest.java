@@ -58,6 +58,7 @@ public final class AddressTest {
         finds(room, "999z s o", 0, 26999, 0);
         finds(room, "10A s o", 0, 271, 0);
         finds(room, "1m s o", 0, 40, 0);
+        finds(room, "2Z S O", 0, 80, 0);
         misses(room, "0 s o");
         misses(room, "01 s o");
         misses(room, "1000 s o");
@@ -113,6 +114,9 @@ public final class AddressTest {
             + "short a1 avenueavenue;street main street in bigtown from 1 to 9 at 0 0 e walk 0;"
             + "street avenueavenue avenueavenue avenueavenue in bigtown from 1 to 9 at 0 0 e walk 0;");
         finds(room, "1 Main St, B", 0, 27, 0);
+        PostRoom other = Due.roomOf("office zed 5 0 0;short q zed;short by z;street z in zed from 1 to 9 at 0 0 e walk 0;");
+        finds(other, "1 by q", 0, 27, 0);
+        finds(other, "1 Z Q", 0, 27, 0);
         misses(room, "1 main street b");
         finds(room, "1 main stret b", 0, 27, 1);
         finds(room, "1 a1 A1 a1 b", 1, 27, 0);

@@ -114,6 +114,10 @@ public final class ProgrammeTest {
         fault(1, "r0=code |1;");
         fault(1, "r0=is |;");
         fault(1, "x0=|1;");
+        fault(1, "x0=|many;");
+        fault(1, "x0=|truths x0;");
+        fault(1, "x0=|registers;");
+        fault(1, "make@0 |register 1;");
         fault(1, "x0=shelf |x0;");
         fault(1, "x0=|item0;");
         fault(1, "x0=item |0;");
@@ -189,6 +193,9 @@ public final class ProgrammeTest {
         Due.is("a row of units", Due.programme(room, "r0=" + many(1000, "1+") + "1;"), 0);
         Due.is("runs", room.run(0, 9), 0);
         Due.is("tells", room.number(0), 1001);
+        Due.is("as many tokens as can be", Due.programme(room, "r0=" + many(1997, "1+") + "1;"), 0);
+        Due.is("runs", room.run(0, 9), 0);
+        Due.is("tells", room.number(0), 1998);
         Due.is("a row of statements", Due.programme(room, many(800, "r0=1;")), 0);
         Due.is("runs", room.run(0, 800), 0);
         Due.is("steps", room.count(14), 800);
@@ -387,6 +394,17 @@ public final class ProgrammeTest {
         }
         runs(items + "slide@1 0,@0 0,4;make@2 registers 4;slide@2 0,@1 0,4;slide@0 0,@2 0,4;", 0);
         refused(items + "make@2 parcels 4;slide@0 2,@2 0,2;", 5);
+        PostRoom first = runs("make@0 items 3;make@1 parcels 3;lay@1[0]shelf 2;lay@0[0]shelf 0;slide@0 0,@1 0,3;", 5);
+        Due.is("the first has not the sort", first.place(1, 0), 2);
+        PostRoom none = runs("make@0 items 3;make@1 parcels 3;lay@1[0]shelf 2;slide@0 0,@1 0,0;slide@0 1,@1 1,2;", 0);
+        Due.is("none is slid", none.place(1, 0), 2);
+        PostRoom two = runs("make@0 items 4;make@1 parcels 4;lay@1[3]shelf 2;slide@0 0,@1 1,2;slide@0 0,@0 1,2;", 0);
+        Due.is("no more than two", two.place(1, 3), 2);
+        PostRoom same = runs("make@1 registers 4;lay@1[0]shelf 1;slide@1 0,@1 1,3;slide@1 0,@1 2,0;", 0);
+        long[] shifted = {1, 1, -1, -1};
+        for (int i = 0; i < 4; i++) {
+            Due.is("in one row", same.place(1, i), shifted[i]);
+        }
     }
 
     private static void items() {

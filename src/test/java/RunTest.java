@@ -90,7 +90,8 @@ public final class RunTest {
         look(room, room(seedItems));
         for (int runs = 0; runs < 3; runs++) {
             text.setLength(0);
-            List<Node> programme = statements(0, 2 + random.nextInt(10));
+            List<Node> programme = random.nextBoolean() ? rows() : new ArrayList<>();
+            programme.addAll(statements(0, 2 + random.nextInt(10)));
             for (Node node : programme) {
                 print(node);
             }
@@ -206,6 +207,28 @@ public final class RunTest {
         List<Node> row = new ArrayList<>();
         for (int i = 0; i < many; i++) {
             row.add(statement(depth));
+        }
+        return row;
+    }
+
+    /** Rows with something in them, so that less is refused at once. */
+    private List<Node> rows() {
+        List<Node> row = new ArrayList<>();
+        int ofItems = random.nextInt(2) * 8;
+        for (int t = 0; t < 4; t++) {
+            int kind = ofItems > 0 ? 9 + random.nextInt(4) : 1 + random.nextInt(random.nextBoolean() ? 8 : 2);
+            Node tray = new Node("number", t);
+            row.add(new Node("make", kind, tray, new Node("number", 1 + random.nextInt(5))));
+            for (int i = random.nextInt(3); i > 0; i--) {
+                Node place = new Node("number", random.nextInt(4));
+                Node lay = new Node("lay", 0, tray, place, item(0));
+                Node put = new Node("put", 0, tray, place, new Node("number", random.nextInt(1000000000)));
+                Node block = new Node("block", 0, ofItems > 0 ? lay : put);
+                row.add(new Node("try", 0, block, null, new Node("on", 0, new Node("block", 0))));
+            }
+        }
+        for (int i = random.nextInt(3); i > 0; i--) {
+            row.add(new Node("slide", 0, tray(), small(), tray(), small(), small()));
         }
         return row;
     }
