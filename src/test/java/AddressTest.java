@@ -15,7 +15,7 @@ public final class AddressTest {
         Due.end("AddressTest");
     }
 
-    private static void finds(PostRoom room, String text, int piece, int door, int far) {
+    private static void finds(Room room, String text, int piece, int door, int far) {
         int got = Due.find(room, text);
         Due.is("find " + text, got, piece);
         Due.is("the tape is taken", room.count(16), 0);
@@ -25,12 +25,12 @@ public final class AddressTest {
         }
     }
 
-    private static void misses(PostRoom room, String text) {
+    private static void misses(Room room, String text) {
         Due.is("find " + text, Due.find(room, text), -1);
     }
 
     private static void forms() {
-        PostRoom room = Due.roomOf(Due.BOOK);
+        Room room = Due.roomOf(Due.BOOK);
         finds(room, "12 mill lane aster", 0, 324, 0);
         finds(room, "12,Mill--LANE\n(101)", 0, 324, 0);
         finds(room, "  12  mill lane 101 aster  ", 0, 324, 0);
@@ -53,7 +53,7 @@ public final class AddressTest {
     }
 
     private static void doors() {
-        PostRoom room = Due.roomOf("office o 5 0 0;street s in o from 1 to 999 at 0 0 e walk 0;");
+        Room room = Due.roomOf("office o 5 0 0;street s in o from 1 to 999 at 0 0 e walk 0;");
         finds(room, "1 s o", 0, 27, 0);
         finds(room, "999z s o", 0, 26999, 0);
         finds(room, "10A s o", 0, 271, 0);
@@ -67,7 +67,7 @@ public final class AddressTest {
         misses(room, "a s o");
         misses(room, "a1 s o");
         misses(room, "999zz s o");
-        PostRoom parts = Due.roomOf("office o 5 0 0;street s in o odd from 3 to 9 at 0 0 e walk 0;"
+        Room parts = Due.roomOf("office o 5 0 0;street s in o odd from 3 to 9 at 0 0 e walk 0;"
             + "street s in o even from 3 to 9 at 0 0 e walk 0;street s in o from 20 to 30 at 0 0 e walk 0;");
         misses(parts, "1 s o");
         misses(parts, "2 s o");
@@ -83,7 +83,7 @@ public final class AddressTest {
     }
 
     private static void partings() {
-        PostRoom room = Due.roomOf("office ab 5 0 0;office cd 6 0 0;street x y in cd from 1 to 9 at 0 0 e walk 0;"
+        Room room = Due.roomOf("office ab 5 0 0;office cd 6 0 0;street x y in cd from 1 to 9 at 0 0 e walk 0;"
             + "street longname in ab from 1 to 9 at 0 0 e walk 0;");
         finds(room, "1 x y cd", 0, 27, 0);
         finds(room, "1 xy cd", 0, 27, 1);
@@ -95,7 +95,7 @@ public final class AddressTest {
     }
 
     private static void codes() {
-        PostRoom room = Due.roomOf("office ab 5 0 0;office cdef 106 0 0;street s t in ab"
+        Room room = Due.roomOf("office ab 5 0 0;office cdef 106 0 0;street s t in ab"
             + " from 1 to 9 at 0 0 e walk 0;street u in cdef from 1 to 9 at 0 0 e walk 0;");
         finds(room, "1 s t 005", 0, 27, 0);
         finds(room, "1 s t 005 ab", 0, 27, 0);
@@ -110,11 +110,11 @@ public final class AddressTest {
     }
 
     private static void shorts() {
-        PostRoom room = Due.roomOf("office bigtown 5 0 0;short b bigtown;short st street;short street road;"
+        Room room = Due.roomOf("office bigtown 5 0 0;short b bigtown;short st street;short street road;"
             + "short a1 avenueavenue;street main street in bigtown from 1 to 9 at 0 0 e walk 0;"
             + "street avenueavenue avenueavenue avenueavenue in bigtown from 1 to 9 at 0 0 e walk 0;");
         finds(room, "1 Main St, B", 0, 27, 0);
-        PostRoom other = Due.roomOf("office zed 5 0 0;short q zed;short by z;street z in zed from 1 to 9 at 0 0 e walk 0;");
+        Room other = Due.roomOf("office zed 5 0 0;short q zed;short by z;street z in zed from 1 to 9 at 0 0 e walk 0;");
         finds(other, "1 by q", 0, 27, 0);
         finds(other, "1 Z Q", 0, 27, 0);
         misses(room, "1 main street b");
@@ -125,7 +125,7 @@ public final class AddressTest {
             "1 a1 a1 a1 a1 a1 a1 a1 a1 a1 a1 a1 a1 a1 a1 a1 a1 a1 a1 a1 a1 a1 a1 a1 a1 b"), -1);
         Due.is("as many words as can be", Due.find(room,
             "1 b b b b b b b b b b b b b b b b b b b b b b b b b b b b b b b b b b b b b b b"), -1);
-        PostRoom longest = Due.roomOf("office b 5 0 0;short a avenueavenue;street s in b from 1 to 9 at 0 0 e walk 0;");
+        Room longest = Due.roomOf("office b 5 0 0;short a avenueavenue;street s in b from 1 to 9 at 0 0 e walk 0;");
         Due.is("as long as can be", Due.find(longest,
             "1 a a a a a a a a a a a a a a a a a a a a a a a a a a a a a a a a a a a a a a a"), -1);
         Due.is("a long word", Due.find(room,
@@ -133,7 +133,7 @@ public final class AddressTest {
     }
 
     private static void nearness() {
-        PostRoom room = Due.roomOf("office town 5 0 0;office down 6 0 0;street abcdef in town from 1 to 9 at 0 0 e walk 0;"
+        Room room = Due.roomOf("office town 5 0 0;office down 6 0 0;street abcdef in town from 1 to 9 at 0 0 e walk 0;"
             + "street abcdef in down from 1 to 9 at 0 0 e walk 0;street abcxyz in town from 1 to 5 at 0 0 e walk 0;");
         finds(room, "1 abcdef town", 0, 27, 0);
         finds(room, "1 abcdef down", 1, 27, 0);
@@ -150,7 +150,7 @@ public final class AddressTest {
     }
 
     private static void found() {
-        PostRoom room = Due.roomOf(Due.BOOK);
+        Room room = Due.roomOf(Due.BOOK);
         finds(room, "7 station rod birch", 3, 189, 1);
         Due.is("found(2)", room.found(2), -1);
         Due.is("found(-1)", room.found(-1), -1);
@@ -221,7 +221,7 @@ public final class AddressTest {
         for (int i = 0; i < 3000; i++) {
             String name = word(random, 12, 3);
             String asked = spoiled(random, name, random.nextInt(5));
-            PostRoom room = new PostRoom();
+            Room room = new Room();
             Due.book(room, "office o 123 0 0;street " + name + " in o from 1 to 9 at 0 0 e walk 0;");
             if (name.equals("in")) {
                 continue;
@@ -252,7 +252,7 @@ public final class AddressTest {
                 book.append("street ").append(names[k]).append(" in ").append(officeNames[at[k]]);
                 book.append(" from 1 to 9 at 0 0 e walk 0;");
             }
-            PostRoom room = Due.roomOf(book.toString());
+            Room room = Due.roomOf(book.toString());
             for (int q = 0; q < 4; q++) {
                 int k = random.nextInt(streets);
                 int code = random.nextInt(3);

@@ -1,17 +1,22 @@
 import java.util.Random;
 
-/** Promises 9, 10 and 11: bar, read, mended. */
+/** Promises 9, 10 and 11, against a plain field of 64 and a plain division by the polynomial of the four zeros. */
 public final class BarsTest {
+    private static final String BOOK = "office o 909 0 0;office p 202 0 0;street s in o from 1 to 9 at 0 0 e walk 0;"
+        + "street t in p from 1 to 9 at 0 0 e walk 0;service a letter most 1;service b parcel most 4000;";
+    private static final int MANY = 80;
+    private static final int CALLS_OF_A_READ = 4;
+
     public static void main(String[] args) {
         signs();
-        wrongInputs();
+        lastItem();
         mended();
-        tooWrong();
+        fiveUnknown();
         againstAllRows();
         Due.end("BarsTest");
     }
 
-    private static int times(int a, int b) {
+    static int times(int a, int b) {
         int product = 0;
         for (int i = 0; i < 6; i++) {
             product ^= (b >> i & 1) != 0 ? a << i : 0;
@@ -22,30 +27,48 @@ public final class BarsTest {
         return product;
     }
 
+    /** a is z, the number 2, so that its first powers are these. */
+    private static int power(int exponent) {
+        return 1 << exponent;
+    }
+
     private static int valueAt(int[] signs, int power) {
-        int x = 1;
-        for (int i = 0; i < power; i++) {
-            x = times(x, 2);
-        }
         int sum = 0;
         int y = 1;
         for (int i = 10; i >= 0; i--) {
             sum ^= times(signs[i], y);
-            y = times(y, x);
+            y = times(y, power(power));
         }
         return sum;
     }
 
-    private static boolean isRow(int[] signs) {
+    static boolean isRow(int[] signs) {
         return valueAt(signs, 1) == 0 && valueAt(signs, 2) == 0 && valueAt(signs, 3) == 0 && valueAt(signs, 4) == 0;
     }
 
-    private static int[] signsOf(String bars) {
-        int[] signs = new int[11];
-        for (int i = 0; i < 33; i++) {
-            signs[i / 3] = signs[i / 3] * 4 + bars.charAt(i) - '0';
+    /** The checks are the rest by the polynomial that is 0 at a, a^2, a^3 and a^4 alone. */
+    static int[] rowOf(int service, int code, int number, int weight) {
+        int[] zeros = {1, 0, 0, 0, 0};
+        for (int k = 1; k <= 4; k++) {
+            for (int i = k; i > 0; i--) {
+                zeros[i] ^= times(zeros[i - 1], power(k));
+            }
         }
-        return signs;
+        int[] row = {service, code / 64, code % 64, number / 64, number % 64, weight / 64, weight % 64, 0, 0, 0, 0};
+        int[] rest = row.clone();
+        for (int i = 0; i < 7; i++) {
+            int by = rest[i];
+            for (int k = 0; k <= 4; k++) {
+                rest[i + k] ^= times(by, zeros[k]);
+            }
+        }
+        System.arraycopy(rest, 7, row, 7, 4);
+        Due.is("a row of signs", isRow(row) ? 1 : 0, 1);
+        return row;
+    }
+
+    static String barsOf(int[] signs) {
+        return barsOf(signs, 0, null);
     }
 
     private static String barsOf(int[] signs, int unknown, Random random) {
@@ -59,67 +82,53 @@ public final class BarsTest {
         return bars.toString();
     }
 
-    private static PostRoom someItems() {
-        PostRoom room = Due.roomOf(Due.BOOK);
-        for (int i = 0; i < 80; i++) {
-            Due.is("accept", Due.accept(room, 1, 1 + 49 * i, i % 4, i % 2 == 0 ? "9 hill 909" : "7 station rd 202"), i);
+    private static int weightOf(int i) {
+        return 1 + 49 * i;
+    }
+
+    private static int[] row(int i) {
+        return rowOf(1, i % 2 == 0 ? 909 : 202, i, weightOf(i));
+    }
+
+    private static Room someItems(int many) {
+        Room room = Due.roomOf(BOOK);
+        for (int i = 0; i < many; i++) {
+            Due.is("accept", Due.accept(room, 1, weightOf(i), i % 2, i % 2 == 0 ? "9 s 909" : "7 t 202"), i);
         }
         return room;
     }
 
     private static void signs() {
-        PostRoom room = someItems();
-        for (int i = 0; i < 80; i++) {
-            int[] signs = signsOf(Due.bars(room, i));
-            int code = i % 2 == 0 ? 909 : 202;
-            int weight = 1 + 49 * i;
-            int[] due = {1, code / 64, code % 64, i / 64, i % 64, weight / 64, weight % 64};
-            for (int k = 0; k < due.length; k++) {
-                Due.is("sign " + k + " of " + i, signs[k], due[k]);
+        for (int from = 0; from < MANY; from += 8) {
+            Room room = someItems(from + 8);
+            for (int i = from; i < from + 8; i++) {
+                String due = barsOf(row(i));
+                if (room.callsLeft() < 40) {
+                    room = someItems(from + 8);
+                }
+                Due.is("bars of " + i, Due.bars(room, i).equals(due) ? 1 : 0, 1);
+                Due.is("read " + i, Due.read(room, due), i);
+                Due.is("mended", room.mended(), 0);
             }
-            Due.is("checks of " + i, isRow(signs) ? 1 : 0, 1);
-            Due.is("read " + i, Due.read(room, Due.bars(room, i)), i);
-            Due.is("mended", room.mended(), 0);
         }
     }
 
-    private static void wrongInputs() {
-        PostRoom room = Due.roomOf(Due.BOOK);
-        Due.is("accept", Due.accept(room, 0, 5, 0, "9 hill 909"), 0);
-        int[][] wrong = {{-1, 0}, {1, 0}, {0, -1}, {0, 33}, {Integer.MAX_VALUE, 0}, {0, Integer.MIN_VALUE}};
-        for (int[] w : wrong) {
-            Due.fires("bar", () -> room.bar(w[0], w[1]), Due.NO_ELEMENT);
+    private static void lastItem() {
+        Room room = Due.roomOf("office o 9 0 0;street s in o from 1 to 9 at 0 0 e walk 0;service a letter most 64;");
+        for (int i = 0; i < 200; i++) {
+            Due.accept(room, 0, 64, 0, "9 s 009");
         }
-        String bars = Due.bars(room, 0);
-        String[] texts = {"", bars.substring(1), bars + "0", bars.substring(1) + "4", bars.substring(1) + " ",
-            bars.substring(1) + "\n", bars.substring(1) + "/", bars.substring(1) + "a"};
-        for (String text : texts) {
-            Due.is("read " + text, Due.read(room, text), -3);
-            Due.is("taken", room.count(16), 0);
-            Due.is("mended", room.mended(), -1);
-        }
-        Due.is("nothing is read", Due.read(room, "???????????????" + bars.substring(15)), -1);
-        Due.is("mended", room.mended(), -1);
-        Due.is("nothing has it", Due.read(room, "000000000000000000000000000000000"), -2);
-        Due.is("mended", room.mended(), 0);
-        Due.is("one bar", Due.read(room, "?" + bars.substring(1)), 0);
-        Due.is("mended", room.mended(), 1);
-        Due.is("not bars", Due.read(room, "no"), -3);
-        Due.is("mended stays", room.mended(), 1);
-        Due.is("not read", Due.read(room, "???????????????" + bars.substring(15)), -1);
-        Due.is("mended stays", room.mended(), 1);
+        String due = barsOf(rowOf(0, 9, 199, 64));
+        Due.is("bars of 199", Due.bars(room, 199).equals(due) ? 1 : 0, 1);
+        Due.is("read 199", Due.read(room, due), 199);
     }
 
     private static void mended() {
-        PostRoom room = someItems();
+        Room room = someItems(MANY);
         Random random = new Random(11);
-        String[] bars = new String[80];
-        for (int i = 0; i < 80; i++) {
-            bars[i] = Due.bars(room, i);
-        }
         for (int round = 0; round < 3000; round++) {
-            int item = random.nextInt(80);
-            int[] signs = signsOf(bars[item]);
+            int item = random.nextInt(MANY);
+            int[] signs = row(item);
             int e = random.nextInt(3);
             int u = random.nextInt(5 - 2 * e);
             int spoiled = 0;
@@ -133,36 +142,37 @@ public final class BarsTest {
             for (int i = 0; i < 11; i++) {
                 signs[i] ^= (spoiled >> i & 1) != 0 ? 1 + random.nextInt(63) : 0;
             }
+            if (room.callsLeft() < CALLS_OF_A_READ) {
+                room = someItems(MANY);
+            }
             Due.is("read of " + e + " wrong, " + u + " unknown", Due.read(room, barsOf(signs, unknown, random)), item);
             Due.is("mended", room.mended(), e + u);
         }
     }
 
-    private static void tooWrong() {
-        PostRoom room = someItems();
+    private static void fiveUnknown() {
+        Room room = someItems(8);
         Random random = new Random(12);
-        String bars = Due.bars(room, 7);
-        for (int round = 0; round < 300; round++) {
+        for (int round = 0; room.callsLeft() >= CALLS_OF_A_READ; round++) {
             int unknown = 0;
             while (Integer.bitCount(unknown) < 5) {
                 unknown |= 1 << random.nextInt(11);
             }
-            Due.is("five unknown", Due.read(room, barsOf(signsOf(bars), unknown, random)), -1);
+            Due.is("five unknown", Due.read(room, barsOf(row(7), unknown, random)), -1);
         }
     }
 
     /** All ways of changing as few signs as may be changed are tried for rows that are quite wrong. */
     private static void againstAllRows() {
-        PostRoom room = someItems();
         Random random = new Random(13);
-        for (int round = 0; round < 200; round++) {
-            int[] signs = signsOf(Due.bars(room, random.nextInt(80)));
+        for (int round = 0; round < 60; round++) {
+            int[] signs = row(random.nextInt(MANY));
             for (int i = 0; i < 3 + round % 2; i++) {
                 signs[random.nextInt(11)] ^= random.nextInt(64);
             }
             int unknown = round % 3 == 0 ? 1 << random.nextInt(11) : 0;
             int due = plain(signs, unknown);
-            PostRoom bare = Due.roomOf("office a 1 0 0;");
+            Room bare = Due.roomOf("office a 1 0 0;");
             int got = Due.read(bare, barsOf(signs, unknown, random));
             Due.is("read of wrong signs", got, due < 0 ? -1 : -2);
             Due.is("mended", bare.mended(), due);

@@ -14,14 +14,8 @@ public final class BookTest {
         Due.end("BookTest");
     }
 
-    /** The mark | stands ahead of the token that is wrong. */
     private static void fault(int kind, String marked) {
-        int place = marked.indexOf('|');
-        String text = marked.substring(0, place) + marked.substring(place + 1);
-        PostRoom room = Due.roomOf("office old 7 7 7;");
-        Due.is("fault of " + marked, Due.book(room, text), kind + 16 * place);
-        Due.is("the old book stays", room.count(0), 1);
-        Due.is("the tape is taken", room.count(16), 0);
+        Due.bookFault(kind, marked);
     }
 
     private static void good(String text) {
@@ -203,7 +197,7 @@ public final class BookTest {
     }
 
     private static void takesThePlace() {
-        PostRoom room = Due.roomOf(Due.BOOK);
+        Room room = Due.roomOf(Due.BOOK);
         Due.is("accept", Due.accept(room, 2, 9, 0, "7 station road birch"), 0);
         Due.is("accept", Due.accept(room, 2, 9, 0, "1 mill lane aster"), 1);
         Due.is("moved", Due.moved(room, 0, 54, "7 station road birch") ? 1 : 0, 1);

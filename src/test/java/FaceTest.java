@@ -5,7 +5,7 @@ import java.lang.reflect.Modifier;
 import java.util.Arrays;
 import java.util.TreeSet;
 
-/** The public face, and promises 1 and 2: a new object, feed. */
+/** The public face. */
 public final class FaceTest {
     private static final String[] FACE = {
         "int feed(long,long,long)", "int book()", "int find()", "int found(int)",
@@ -19,8 +19,6 @@ public final class FaceTest {
 
     public static void main(String[] args) {
         face();
-        newObject();
-        feed();
         Due.end("FaceTest");
     }
 
@@ -64,68 +62,5 @@ public final class FaceTest {
             text.append(" ").append(thrown.getSimpleName());
         }
         return text.toString();
-    }
-
-    private static void newObject() {
-        PostRoom room = new PostRoom();
-        int[] counts = {0, 0, 0, 0, 0, 0, 0, 0, 0, 0, 0, 0, 7, 0, 0, 0, 0, 0};
-        for (int i = 0; i < counts.length; i++) {
-            Due.is("new count(" + i + ")", room.count(i), counts[i]);
-        }
-        Due.is("new count(18)", room.count(18), -1);
-        Due.is("new count(-1)", room.count(-1), -1);
-        Due.is("new found(0)", room.found(0), -1);
-        Due.is("new found(1)", room.found(1), -1);
-        Due.is("new mended()", room.mended(), -1);
-        Due.is("new find()", room.find(), -1);
-        Due.is("new read()", room.read(), -3);
-        Due.is("new sort(0)", room.sort(0), -1);
-        Due.is("new deliver(0, 0)", room.deliver(0, 0), -2);
-        Due.is("new run(0, 1)", room.run(0, 1), -1);
-        Due.is("new shelf(0, 0)", room.shelf(0, 0), -1);
-        Due.is("new bag(0, 0)", room.bag(0, 0), -1);
-        Due.is("new tick(5)", room.tick(5), 5);
-        Due.is("new moved(0, 27)", room.moved(0, 27) ? 1 : 0, 0);
-        Due.is("new gone(0, 27)", room.gone(0, 27) ? 1 : 0, 0);
-        Due.fires("new price", () -> room.price(0, 1, 0, 0), Due.ILLEGAL_ARGUMENT);
-        Due.fires("new way", () -> room.way(0, 0), Due.ILLEGAL_ARGUMENT);
-        Due.fires("new accept", () -> room.accept(0, 1, 0), Due.ILLEGAL_ARGUMENT);
-        Due.fires("new bar", () -> room.bar(0, 0), Due.NO_ELEMENT);
-        Due.fires("new item", () -> room.item(0, 0), Due.NO_ELEMENT);
-        Due.fires("new place", () -> room.place(0, 0), Due.NO_ELEMENT);
-        for (int i = 0; i < 12; i++) {
-            Due.is("new number", i < 10 ? room.number(i) : 0, 0);
-            Due.is("new held", i < 4 ? room.held(i) : -1, -1);
-            Due.is("new tray 0", room.tray(i, 0), 0);
-            Due.is("new tray 1", room.tray(i, 1), -1);
-            Due.is("new tray 2", room.tray(i, 2), -1);
-        }
-        Due.is("an empty programme", room.programme(), 0);
-        Due.is("no office to run at", room.run(0, 1), -1);
-        Due.is("an empty book", room.book(), 0);
-    }
-
-    private static void feed() {
-        PostRoom room = new PostRoom();
-        Due.is("nothing fed", room.feed(0, 0, 0), 0);
-        Due.is("others left out", room.feed(0x0A207E7F1F800BFFL, -1L, 0x6100000000000062L), 5);
-        Due.is("count(16)", room.count(16), 5);
-        room.book();
-        Due.is("taken", room.count(16), 0);
-        for (int i = 1; i <= 170; i++) {
-            int due = Math.min(4000, 24 * i);
-            Due.is("feed " + i, room.feed(0x2020202020202020L, 0x2020202020202020L, 0x2020202020202020L), due);
-        }
-        Due.is("4,000 at most", room.count(16), 4000);
-        Due.is("blanks are a book", room.book(), 0);
-        Due.is("the order of bytes", Due.feed(room, "office a 1 2 3;"), 15);
-        Due.is("book", room.book(), 0);
-        Due.is("one office", room.count(0), 1);
-        for (int i = 0; i < 166; i++) {
-            room.feed(0x2020202020202020L, 0x2020202020202020L, 0x2020202020202020L);
-        }
-        Due.is("3,999", Due.feed(room, "               "), 3999);
-        Due.is("the 4,000th sign of eight", room.feed(0x2C3B3B3B3B3B3B3BL, 0, 0), 4000);
-        Due.is("its fault", room.book(), 1 + 16 * 3999);
     }
 }

@@ -15,8 +15,11 @@ public final class FuzzTest {
     private static final int[] EDGES = {Integer.MIN_VALUE, -2, -1, 0, 1, 2, 3, 4, 5, 7, 9, 10, 11, 12, 15, 16, 17, 18, 26, 27, 32, 33, 39, 40, 54, 60,
         100, 135, 199, 200, 400, 1440, 3000, 3001, 20000, 20001, 26999, 27000, Integer.MAX_VALUE};
 
+    /** A book of 61 words is fed in 24 calls at most. */
+    private static final int MOST_CALLS_OF_ONE = 40;
+
     private final Random random;
-    private final PostRoom room = new PostRoom();
+    private final Room room = new Room();
 
     private FuzzTest(int seed) {
         random = new Random(seed);
@@ -28,7 +31,7 @@ public final class FuzzTest {
             if (seed % 4 > 0) {
                 Due.book(fuzz.room, Due.BOOK);
             }
-            for (int i = 0; i < 300; i++) {
+            while (fuzz.room.callsLeft() > MOST_CALLS_OF_ONE) {
                 fuzz.call();
             }
         }

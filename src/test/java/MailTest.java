@@ -8,7 +8,7 @@ import java.util.Random;
  */
 public final class MailTest {
     public static void main(String[] args) {
-        for (int seed = 0; seed < 400; seed++) {
+        for (int seed = 0; seed < 2000; seed++) {
             new MailTest(seed).play();
         }
         Due.end("MailTest");
@@ -20,7 +20,7 @@ public final class MailTest {
 
     private static final int[] SORTS = {0, 2, 1};
     private final Random random;
-    private final PostRoom room = new PostRoom();
+    private final Room room = new Room();
     private final int offices, streets, coaches;
     private final int[] x, y, streetOffice, streetX, streetY, goes, walk;
     private final int[][] coach;
@@ -84,9 +84,11 @@ public final class MailTest {
         Due.is(what + " of " + told + " at " + clock, got, want);
     }
 
+    /** What is left of the calls behind the last round is used for questions. */
     private void play() {
         is("book", Due.book(room, told), 0);
-        for (int round = 0; round < 60; round++) {
+        int reserve = 50 + random.nextInt(250);
+        for (int round = 0; room.callsLeft() > reserve; round++) {
             int what = random.nextInt(10);
             if (what < 4) {
                 for (int i = random.nextInt(6); i >= 0; i--) {
@@ -103,10 +105,10 @@ public final class MailTest {
                 deliver();
             }
             if (round % 3 == 0) {
-                look();
+                ask(10);
             }
         }
-        look();
+        ask(room.callsLeft());
     }
 
     private int goal(Mail mail) {
@@ -375,43 +377,46 @@ public final class MailTest {
         return false;
     }
 
-    private void look() {
+    private void ask(int times) {
+        for (int i = 0; i < times; i++) {
+            int which = random.nextInt(8);
+            if (which < 3 && !mails.isEmpty()) {
+                askItem(mails.get(random.nextInt(mails.size())), random.nextInt(11));
+            } else if (which == 3) {
+                askCount();
+            } else if (which == 4) {
+                int from = random.nextInt(offices);
+                int to = random.nextInt(offices);
+                is("way " + from + " " + to, room.way(from, to), wayTime(from, to));
+            } else if (which == 5) {
+                int coachNumber = random.nextInt(coaches);
+                int k = random.nextInt(bags.get(coachNumber).size() + 2) - 1;
+                is("bag", room.bag(coachNumber, k), numberIn(bags.get(coachNumber), k));
+            } else {
+                int office = random.nextInt(offices);
+                int k = random.nextInt(shelves.get(office).size() + 2) - 1;
+                is("shelf", room.shelf(office, k), numberIn(shelves.get(office), k));
+            }
+        }
+    }
+
+    private static int numberIn(List<Mail> row, int k) {
+        return k < 0 || k >= row.size() ? -1 : row.get(k).number;
+    }
+
+    private void askItem(Mail m, int what) {
+        int[] due = {m.service, m.weight, m.from, m.piece, m.door, m.where, m.office, m.where == 1 || m.where == 2 ? m.coach : -1,
+            m.price, m.sent, m.since};
+        is("item(" + m.number + ", " + what + ")", room.item(m.number, what), due[what]);
+    }
+
+    private void askCount() {
+        int[] due = {offices, streets, 3, coaches, clock, mails.size(), 0, 0, 0, 0, 0, moves.size(), seal, 0, 0, 0, 0, trips.size()};
         for (Mail m : mails) {
-            int[] due = {m.service, m.weight, m.from, m.piece, m.door, m.where, m.office, m.where == 1 || m.where == 2 ? m.coach : -1,
-                m.price, m.sent, m.since};
-            for (int i = 0; i < due.length; i++) {
-                is("item(" + m.number + ", " + i + ")", room.item(m.number, i), due[i]);
-            }
+            due[6 + m.where]++;
+            due[15] += m.price;
         }
-        for (int i = 0; i < offices; i++) {
-            for (int k = -1; k <= shelves.get(i).size(); k++) {
-                boolean isThere = k >= 0 && k < shelves.get(i).size();
-                is("shelf", room.shelf(i, k), isThere ? shelves.get(i).get(k).number : -1);
-            }
-            for (int k = 0; k < offices; k++) {
-                is("way " + i + " " + k, room.way(i, k), wayTime(i, k));
-            }
-        }
-        for (int i = 0; i < coaches; i++) {
-            for (int k = -1; k <= bags.get(i).size(); k++) {
-                boolean isThere = k >= 0 && k < bags.get(i).size();
-                is("bag", room.bag(i, k), isThere ? bags.get(i).get(k).number : -1);
-            }
-        }
-        int[] counts = new int[5];
-        int prices = 0;
-        for (Mail m : mails) {
-            counts[m.where]++;
-            prices += m.price;
-        }
-        for (int i = 0; i < 5; i++) {
-            is("count " + (6 + i), room.count(6 + i), counts[i]);
-        }
-        is("clock", room.count(4), clock);
-        is("items", room.count(5), mails.size());
-        is("moved", room.count(11), moves.size());
-        is("seal", room.count(12), seal);
-        is("prices", room.count(15), prices);
-        is("under way", room.count(17), trips.size());
+        int what = random.nextInt(3) == 0 ? 12 : random.nextInt(due.length);
+        is("count " + what, room.count(what), due[what]);
     }
 }

@@ -23,7 +23,7 @@ public final class PostTest {
     }
 
     private static void ways() {
-        PostRoom room = Due.roomOf(Due.BOOK);
+        Room room = Due.roomOf(Due.BOOK);
         int[][] wrong = {{-1, 0}, {0, -1}, {4, 0}, {0, 4}, {MIN, 0}, {0, MAX}, {4, 4}};
         for (int[] w : wrong) {
             Due.fires("way", () -> room.way(w[0], w[1]), Due.ILLEGAL_ARGUMENT);
@@ -42,7 +42,7 @@ public final class PostTest {
 
     /** The first coach comes later than the second, but reaches the same third one. */
     private static void laterFirstCoach() {
-        PostRoom room = Due.roomOf("office a 1 0 0;office b 2 0 0;office c 3 0 0;street s in c from 1 to 9 at 0 0 e walk 0;"
+        Room room = Due.roomOf("office a 1 0 0;office b 2 0 0;office c 3 0 0;street s in c from 1 to 9 at 0 0 e walk 0;"
             + "service p letter most 9;coach a b first 30 every 1440 last 30 takes 5 holds 1;"
             + "coach a b first 10 every 1440 last 10 takes 5 holds 1;coach b c first 50 every 1440 last 50 takes 5 holds 1;");
         Due.is("way", room.way(0, 2), 55);
@@ -54,7 +54,7 @@ public final class PostTest {
 
     /** Even a coach that only goes and comes back ahead of the right one is told first. */
     private static void roundAboutTie() {
-        PostRoom room = Due.roomOf("office a 1 0 0;office b 2 0 0;office c 3 0 0;street s in c from 1 to 9 at 0 0 e walk 0;"
+        Room room = Due.roomOf("office a 1 0 0;office b 2 0 0;office c 3 0 0;street s in c from 1 to 9 at 0 0 e walk 0;"
             + "service p letter most 9;coach a b first 5 every 1440 last 5 takes 5 holds 1;"
             + "coach b a first 15 every 1440 last 15 takes 5 holds 1;coach a c first 50 every 1440 last 50 takes 5 holds 1;");
         Due.is("way", room.way(0, 2), 55);
@@ -72,13 +72,13 @@ public final class PostTest {
             int takes = i < 6 ? 2879 : i == 6 ? 2880 : 1;
             text.append("coach o").append(i).append(" o").append(i + 1).append(" first 1 every 1440 last 1 takes ").append(takes).append(" holds 1;");
         }
-        PostRoom room = Due.roomOf(text.toString());
+        Room room = Due.roomOf(text.toString());
         Due.is("6 coaches", room.way(0, 6), 6 * 2880);
         Due.is("20160 and 1 minutes", room.way(0, 7), -1);
         Due.is("still more", room.way(0, 8), -1);
         room.tick(1);
         Due.is("at 1: one day later", room.way(0, 6), 6 * 2880 + 1440);
-        PostRoom other = Due.roomOf(text.toString().replace("takes 2880", "takes 2879"));
+        Room other = Due.roomOf(text.toString().replace("takes 2880", "takes 2879"));
         Due.is("20160 minutes", other.way(0, 7), 20160);
         Due.is("20160 minutes and more", other.way(0, 8), -1);
     }
@@ -92,7 +92,7 @@ public final class PostTest {
         for (int i = 14; i >= 0; i--) {
             text.append("coach o").append(i).append(" o").append(i + 1).append(" first 0 every 1 last 1439 takes 9 holds 1;");
         }
-        PostRoom room = Due.roomOf(text.toString());
+        Room room = Due.roomOf(text.toString());
         for (int i = 1; i < 16; i++) {
             Due.is("way to " + i, room.way(0, i), 10 * i);
         }
@@ -100,7 +100,7 @@ public final class PostTest {
     }
 
     private static void acceptance() {
-        PostRoom room = Due.roomOf(Due.BOOK);
+        Room room = Due.roomOf(Due.BOOK);
         int[][] wrong = {{-1, 1, 0}, {4, 1, 0}, {0, 1, -1}, {0, 1, 4}, {MAX, 1, 0}, {0, 1, MIN}, {4, 0, 0}};
         for (int[] w : wrong) {
             Due.feed(room, "1 mill lane 101");
@@ -113,7 +113,7 @@ public final class PostTest {
         Due.is("no weight", Due.accept(room, 0, 101, 0, "1 mill lane 101"), -3);
         Due.is("no weight", Due.accept(room, 0, 0, 0, "1 mill lane 101"), -3);
         Due.is("the tape is taken", room.count(16), 0);
-        PostRoom two = Due.roomOf("office a 1 0 0;street s in a from 1 to 9 at 0 0 e walk 0;street t in a from 1 to 9 at 0 0 e walk 0;"
+        Room two = Due.roomOf("office a 1 0 0;street s in a from 1 to 9 at 0 0 e walk 0;street t in a from 1 to 9 at 0 0 e walk 0;"
             + "service p letter most 5 base 3;");
         Due.is("several", Due.accept(two, 0, 9, 0, "1 u a"), -2);
         for (int i = 0; i < 200; i++) {
@@ -129,7 +129,7 @@ public final class PostTest {
     }
 
     private static void ticks() {
-        PostRoom room = Due.roomOf(Due.BOOK);
+        Room room = Due.roomOf(Due.BOOK);
         Due.is("tick(-1)", room.tick(-1), -1);
         Due.is("tick(3001)", room.tick(3001), -1);
         Due.is("tick(MIN)", room.tick(MIN), -1);
@@ -137,7 +137,7 @@ public final class PostTest {
         Due.is("tick(0)", room.tick(0), 0);
         Due.is("tick(3000)", room.tick(3000), 3000);
         Due.is("clock", room.count(4), 3000);
-        PostRoom mail = Due.roomOf(Due.BOOK);
+        Room mail = Due.roomOf(Due.BOOK);
         for (int i = 0; i < 3; i++) {
             Due.is("accept", Due.accept(mail, 2, 9, 0, "7 station road birch"), i);
         }
@@ -167,7 +167,7 @@ public final class PostTest {
     }
 
     private static void sorting() {
-        PostRoom room = Due.roomOf(Due.BOOK);
+        Room room = Due.roomOf(Due.BOOK);
         Due.is("sort(-1)", room.sort(-1), -1);
         Due.is("sort(4)", room.sort(4), -1);
         Due.is("sort(MAX)", room.sort(MAX), -1);
@@ -191,7 +191,7 @@ public final class PostTest {
     }
 
     private static void walks() {
-        PostRoom room = Due.roomOf(Due.BOOK);
+        Room room = Due.roomOf(Due.BOOK);
         int[][] wrong = {{-1, 0}, {4, 0}, {0, -1}, {0, 11}, {MAX, 0}, {0, MIN}, {-1, 10}};
         for (int[] w : wrong) {
             Due.is("deliver(" + w[0] + ", " + w[1] + ")", room.deliver(w[0], w[1]), -2);
@@ -213,7 +213,7 @@ public final class PostTest {
 
     /** Nine places: those of the ninth stay, those at an earlier one go; ties by the order of the stops. */
     private static void eightStops() {
-        PostRoom room = Due.roomOf("office a 1 50 50;street s in a from 1 to 99 at 50 50 e walk 0;service r register most 9;");
+        Room room = Due.roomOf("office a 1 50 50;street s in a from 1 to 99 at 50 50 e walk 0;service r register most 9;");
         int[] doors = {11, 1, 21, 31, 41, 51, 61, 71, 81, 11, 91};
         for (int door : doors) {
             Due.accept(room, 0, 1, 0, door + " s a");
@@ -234,7 +234,7 @@ public final class PostTest {
     }
 
     private static void sentAfterTwice() {
-        PostRoom room = Due.roomOf("office a 1 0 0;street s in a from 1 to 9 at 0 0 e walk 0;street t in a from 1 to 9 at 0 5 e walk 0;"
+        Room room = Due.roomOf("office a 1 0 0;street s in a from 1 to 9 at 0 0 e walk 0;street t in a from 1 to 9 at 0 5 e walk 0;"
             + "service p letter most 9 base 8;");
         Due.is("moved", Due.moved(room, 0, 27, "2 s a") ? 1 : 0, 1);
         Due.is("moved", Due.moved(room, 0, 54, "3 t a") ? 1 : 0, 1);
@@ -268,14 +268,14 @@ public final class PostTest {
         Due.is("alone", room.shelf(0, 1), -1);
     }
 
-    private static boolean tellsMoved(PostRoom room, int piece, int door, String text) {
+    private static boolean tellsMoved(Room room, int piece, int door, String text) {
         boolean told = Due.moved(room, piece, door, text);
         Due.is("the tape is taken", room.count(16), 0);
         return told;
     }
 
     private static void movedDoors() {
-        PostRoom room = Due.roomOf(Due.BOOK);
+        Room room = Due.roomOf(Due.BOOK);
         Due.is("nothing found", tellsMoved(room, 0, 27, "1 nowhere 999") ? 1 : 0, 0);
         Due.is("no tape", tellsMoved(room, 0, 27, "") ? 1 : 0, 0);
         Due.is("the door itself", tellsMoved(room, 0, 27, "1 mill lane 101") ? 1 : 0, 0);
@@ -304,7 +304,7 @@ public final class PostTest {
     }
 
     private static void movedLimit() {
-        PostRoom room = Due.roomOf(Due.BOOK);
+        Room room = Due.roomOf(Due.BOOK);
         for (int i = 0; i < 40; i++) {
             Due.is("gone", room.gone(0, 27 + i) ? 1 : 0, 1);
         }
@@ -317,7 +317,7 @@ public final class PostTest {
     }
 
     private static void items() {
-        PostRoom room = Due.roomOf(Due.BOOK);
+        Room room = Due.roomOf(Due.BOOK);
         Due.accept(room, 1, 150, 2, "7b station road birch");
         int[] due = {1, 150, 2, 3, 191, 0, 2, -1, 200, 0, 0};
         for (int i = 0; i < due.length; i++) {
@@ -337,7 +337,7 @@ public final class PostTest {
 
     /** All eight kinds of lines in the log, by hand. */
     private static void seal() {
-        PostRoom room = Due.roomOf("office a 1 0 0;office b 2 0 0;street s in b from 1 to 9 at 0 0 e walk 0;"
+        Room room = Due.roomOf("office a 1 0 0;office b 2 0 0;street s in b from 1 to 9 at 0 0 e walk 0;"
             + "service r register most 9;service p letter most 9;coach a b first 3 every 1440 last 3 takes 4 holds 9;"
             + "coach b a first 9 every 1440 last 9 takes 2 holds 9;");
         int seal = 7;

@@ -24,24 +24,16 @@ public final class ProgrammeTest {
         Due.end("ProgrammeTest");
     }
 
-    /** The mark | stands ahead of the token that is wrong. */
     private static void fault(int kind, String marked) {
-        int place = marked.indexOf('|');
-        String text = marked.substring(0, place) + marked.substring(place + 1);
-        PostRoom room = Due.roomOf("office old 7 7 7;");
-        Due.is("programme", Due.programme(room, "r1=77;"), 0);
-        Due.is("fault of " + marked, Due.programme(room, text), kind + 16 * place);
-        Due.is("the tape is taken", room.count(16), 0);
-        Due.is("the old programme stays", room.run(0, 5), 0);
-        Due.is("the old programme stays", room.number(1), 77);
+        Due.programmeFault(kind, marked);
     }
 
     /**
      * Item 0 a letter of 5, item 1 a register of 7, item 2 a parcel of 9, item 3 a letter to here; item 4 is at b.
      * Coach 2 goes to c but once a day, so that one can go to b and come back ahead of it.
      */
-    private static PostRoom room() {
-        PostRoom room = Due.roomOf("office a 101 0 0;office b 202 0 0;office c 303 0 0;"
+    private static Room room() {
+        Room room = Due.roomOf("office a 101 0 0;office b 202 0 0;office c 303 0 0;"
             + "street s in a from 1 to 9 at 0 0 e walk 0;street t in b from 1 to 9 at 0 0 e walk 0;street u in c from 1 to 9 at 0 0 e walk 0;"
             + "service l letter most 9;service r register most 9;service p parcel most 9;"
             + "coach b a first 0 every 9 last 900 takes 5 holds 9;coach a b first 0 every 9 last 900 takes 5 holds 9;"
@@ -54,21 +46,21 @@ public final class ProgrammeTest {
         return room;
     }
 
-    private static PostRoom runs(String text, int due) {
-        PostRoom room = room();
+    private static Room runs(String text, int due) {
+        Room room = room();
         Due.is("programme " + text, Due.programme(room, text), 0);
         Due.is("run of " + text, room.run(0, 20000), due);
         return room;
     }
 
     private static void tells(String e, long due) {
-        PostRoom room = runs("r0 = " + e + ";", 0);
+        Room room = runs("r0 = " + e + ";", 0);
         Due.is("tells " + e, room.number(0), due);
     }
 
     private static void refused(String statements, int due) {
         runs(statements, due);
-        PostRoom room = runs("r8=1; try { " + statements + " r8=2; } on 0 { r7=r9; }", 0);
+        Room room = runs("r8=1; try { " + statements + " r8=2; } on 0 { r7=r9; }", 0);
         Due.is("caught " + statements, room.number(7), due);
         Due.is("ended " + statements, room.number(8), 1);
     }
@@ -165,7 +157,7 @@ public final class ProgrammeTest {
     }
 
     private static void depths() {
-        PostRoom room = room();
+        Room room = room();
         Due.is("20 blocks", Due.programme(room, many(20, "if 1{") + many(20, "}")), 0);
         fault(5, many(20, "if 1{") + "if |1{");
         fault(5, many(20, "try{") + "try|{}");
@@ -227,7 +219,7 @@ public final class ProgrammeTest {
         tells("is x0", 0);
         tells("is shelf 0", 1);
         tells("sort@0", 0);
-        PostRoom room = runs("r1=1;r2=64;while r2{r1=r1*2;r2=r2-1;if r2=1{r3=r1;r4=r1/-1;r5=r1%-1;r6=r1-1;r7=-r1;}}", 0);
+        Room room = runs("r1=1;r2=64;while r2{r1=r1*2;r2=r2-1;if r2=1{r3=r1;r4=r1/-1;r5=r1%-1;r6=r1-1;r7=-r1;}}", 0);
         Due.is("wraps to 0", room.number(1), 0);
         Due.is("least", room.number(3), Long.MIN_VALUE);
         Due.is("least by -1", room.number(4), Long.MIN_VALUE);
@@ -244,7 +236,7 @@ public final class ProgrammeTest {
     }
 
     private static void kept(String row, String e, long due) {
-        PostRoom room = runs("r1=1;r2=63;while r2{r1=r1*2;r2=r2-1;}make@3 " + row + " 2;put@3[1]" + e + ";r0=at@3[1];r3=at@3[0];", 0);
+        Room room = runs("r1=1;r2=63;while r2{r1=r1*2;r2=r2-1;}make@3 " + row + " 2;put@3[1]" + e + ";r0=at@3[1];r3=at@3[0];", 0);
         Due.is(row + " keep " + e, room.number(0), due);
         Due.is("place of " + row, room.place(3, 1), due);
         Due.is("0 at first", room.number(3), 0);
@@ -281,7 +273,7 @@ public final class ProgrammeTest {
     }
 
     private static void trays() {
-        PostRoom room = runs("make@0 bytes 3;make@1 longs 0;same@2@0;same@3@1;make@4 longs 0;drop@0;same@5@0;r0=sort@2;r1=len@2;r2=len@1;r3=sort@0;"
+        Room room = runs("make@0 bytes 3;make@1 longs 0;same@2@0;same@3@1;make@4 longs 0;drop@0;same@5@0;r0=sort@2;r1=len@2;r2=len@1;r3=sort@0;"
             + "put@2[2]5;same@6@2;put@6[0]9;make@11 registers 7;make@10 truths 2000-10;", 0);
         int[][] due = {{0, -1, -1}, {6, 0, 1}, {2, 3, 2}, {6, 0, 1}, {6, 0, 4}, {0, -1, -1}, {2, 3, 2}, {0, -1, -1}, {0, -1, -1},
             {0, -1, -1}, {1, 1990, 10}, {12, 7, 11}};
@@ -325,7 +317,7 @@ public final class ProgrammeTest {
     }
 
     private static void itemRows() {
-        PostRoom room = runs("make@0 items 4;make@1 letters 4;make@2 parcels 4;make@3 registers 4;lay@0[0]shelf 2;lay@1[0]shelf 0;lay@1[1]shelf 1;"
+        Room room = runs("make@0 items 4;make@1 letters 4;make@2 parcels 4;make@3 registers 4;lay@0[0]shelf 2;lay@1[0]shelf 0;lay@1[1]shelf 1;"
             + "lay@2[3]shelf 2;lay@3[2]shelf 1;lay@3[1]none;x0=item@1[1];x1=item@1[2];lay@0[1]x0;", 0);
         Due.is("items", room.place(0, 0), 2);
         Due.is("items", room.place(0, 1), 1);
@@ -351,11 +343,11 @@ public final class ProgrammeTest {
 
     private static void slides() {
         String row = "make@0 ints 5;put@0[0]1;put@0[1]2;put@0[2]3;put@0[3]4;put@0[4]5;";
-        PostRoom room = runs(row + "slide@0 0,@0 1,4;", 0);
+        Room room = runs(row + "slide@0 0,@0 1,4;", 0);
         int[] up = {1, 1, 2, 3, 4};
-        PostRoom down = runs(row + "same@1@0;slide@1 1,@0 0,4;", 0);
+        Room down = runs(row + "same@1@0;slide@1 1,@0 0,4;", 0);
         int[] back = {2, 3, 4, 5, 5};
-        PostRoom other = runs(row + "make@1 ints 7;slide@0 2,@1 4,3;slide@0 5,@1 7,0;", 0);
+        Room other = runs(row + "make@1 ints 7;slide@0 2,@1 4,3;slide@0 5,@1 7,0;", 0);
         int[] behind = {0, 0, 0, 0, 3, 4, 5};
         for (int i = 0; i < 5; i++) {
             Due.is("as if all had been taken first", room.place(0, i), up[i]);
@@ -384,9 +376,9 @@ public final class ProgrammeTest {
         refused("slide@0 0,@12 1/0,0;", 3);
         refused("slide@0 0,@0 0,1/0;", 6);
         String items = "make@0 items 4;make@1 letters 4;lay@0[0]shelf 0;lay@0[1]shelf 1;lay@0[3]shelf 3;";
-        PostRoom fit = runs(items + "slide@0 0,@1 0,4;", 0);
+        Room fit = runs(items + "slide@0 0,@1 0,4;", 0);
         long[] due = {0, 1, -1, 3};
-        PostRoom part = runs(items + "lay@1[2]shelf 3;lay@1[3]shelf 3;lay@0[2]shelf 2;slide@0 0,@1 0,4;", 5);
+        Room part = runs(items + "lay@1[2]shelf 3;lay@1[3]shelf 3;lay@0[2]shelf 2;slide@0 0,@1 0,4;", 5);
         long[] partly = {0, 1, 3, 3};
         for (int i = 0; i < 4; i++) {
             Due.is("items", fit.place(1, i), due[i]);
@@ -394,13 +386,13 @@ public final class ProgrammeTest {
         }
         runs(items + "slide@1 0,@0 0,4;make@2 registers 4;slide@2 0,@1 0,4;slide@0 0,@2 0,4;", 0);
         refused(items + "make@2 parcels 4;slide@0 2,@2 0,2;", 5);
-        PostRoom first = runs("make@0 items 3;make@1 parcels 3;lay@1[0]shelf 2;lay@0[0]shelf 0;slide@0 0,@1 0,3;", 5);
+        Room first = runs("make@0 items 3;make@1 parcels 3;lay@1[0]shelf 2;lay@0[0]shelf 0;slide@0 0,@1 0,3;", 5);
         Due.is("the first has not the sort", first.place(1, 0), 2);
-        PostRoom none = runs("make@0 items 3;make@1 parcels 3;lay@1[0]shelf 2;slide@0 0,@1 0,0;slide@0 1,@1 1,2;", 0);
+        Room none = runs("make@0 items 3;make@1 parcels 3;lay@1[0]shelf 2;slide@0 0,@1 0,0;slide@0 1,@1 1,2;", 0);
         Due.is("none is slid", none.place(1, 0), 2);
-        PostRoom two = runs("make@0 items 4;make@1 parcels 4;lay@1[3]shelf 2;slide@0 0,@1 1,2;slide@0 0,@0 1,2;", 0);
+        Room two = runs("make@0 items 4;make@1 parcels 4;lay@1[3]shelf 2;slide@0 0,@1 1,2;slide@0 0,@0 1,2;", 0);
         Due.is("no more than two", two.place(1, 3), 2);
-        PostRoom same = runs("make@1 registers 4;lay@1[0]shelf 1;slide@1 0,@1 1,3;slide@1 0,@1 2,0;", 0);
+        Room same = runs("make@1 registers 4;lay@1[0]shelf 1;slide@1 0,@1 1,3;slide@1 0,@1 2,0;", 0);
         long[] shifted = {1, 1, -1, -1};
         for (int i = 0; i < 4; i++) {
             Due.is("in one row", same.place(1, i), shifted[i]);
@@ -425,7 +417,7 @@ public final class ProgrammeTest {
         refused("x0=letter shelf 2;", 2);
         refused("x0=register shelf 0;", 2);
         refused("x0=parcel letter shelf 2;", 2);
-        PostRoom room = runs("x0=letter shelf 1;x1=register shelf 1;x2=parcel shelf 2;x3=shelf 3;x3=parcel none;", 0);
+        Room room = runs("x0=letter shelf 1;x1=register shelf 1;x2=parcel shelf 2;x3=shelf 3;x3=parcel none;", 0);
         int[] due = {1, 1, 2, -1};
         for (int i = 0; i < 4; i++) {
             Due.is("held", room.held(i), due[i]);
@@ -445,7 +437,7 @@ public final class ProgrammeTest {
     }
 
     private static void bags() {
-        PostRoom room = runs("x0=shelf 2;bag x0,3;bag shelf 0,1;r0=many;bag shelf 0,2;", 0);
+        Room room = runs("x0=shelf 2;bag x0,3;bag shelf 0,1;r0=many;bag shelf 0,2;", 0);
         Due.is("bag 3", room.bag(3, 0), 2);
         Due.is("bag 1", room.bag(1, 0), 0);
         Due.is("bag 2", room.bag(2, 0), 1);
@@ -468,7 +460,7 @@ public final class ProgrammeTest {
     private static void refusals() {
         refused("refuse 1/0;", 6);
         runs("refuse 77;", 9);
-        PostRoom room = runs("try{refuse 77;}on 9{r0=r9;}", 0);
+        Room room = runs("try{refuse 77;}on 9{r0=r9;}", 0);
         Due.is("what it told", room.number(0), 77);
         room = runs("try{refuse 3;}on 3{r0=1;}on 9{r0=2;}", 0);
         Due.is("its number is 9", room.number(0), 2);
@@ -478,7 +470,7 @@ public final class ProgrammeTest {
     }
 
     private static void tries() {
-        PostRoom room = runs("try{r0=1/0;}on 1{r1=1;}on 6{r1=2;}on 0{r1=3;}on 6{r1=4;}r2=1;", 0);
+        Room room = runs("try{r0=1/0;}on 1{r1=1;}on 6{r1=2;}on 0{r1=3;}on 6{r1=4;}r2=1;", 0);
         Due.is("the first that has it", room.number(1), 2);
         Due.is("behind the try", room.number(2), 1);
         room = runs("try{r0=1/0;}on 0{r1=3;}on 6{r1=2;}", 0);
@@ -506,7 +498,7 @@ public final class ProgrammeTest {
     }
 
     private static void always() {
-        PostRoom room = runs("try{r0=1;}always{r1=1;}r2=1;", 0);
+        Room room = runs("try{r0=1;}always{r1=1;}r2=1;", 0);
         Due.is("always", room.number(1), 1);
         Due.is("behind", room.number(2), 1);
         room = runs("try{r0=1/0;}on 6{r0=2;}always{r1=r0;}r2=1;", 0);
@@ -545,13 +537,13 @@ public final class ProgrammeTest {
     }
 
     private static void steps(String text, int due) {
-        PostRoom room = room();
+        Room room = room();
         Due.is("programme " + text, Due.programme(room, text), 0);
         Due.is("just enough: " + text, due == 0 ? room.run(0, 1) : room.run(0, due), 0);
         Due.is("steps: " + text, room.count(14), due);
         Due.is("steps of all: " + text, room.count(13), due);
         if (due > 1) {
-            PostRoom other = room();
+            Room other = room();
             Due.programme(other, text);
             Due.is("one too few: " + text, other.run(0, due - 1), 10);
             Due.is("steps: " + text, other.count(14), due - 1);
@@ -571,7 +563,7 @@ public final class ProgrammeTest {
         steps("try{r0=1/0;r0=1;}on 6{r0=1;}always{r1=1;}", 4);
         steps("stop;r0=1;", 1);
         steps("if 1{while 0{}}", 2);
-        PostRoom room = room();
+        Room room = room();
         Due.programme(room, "r0=1;r0=2;r0=3;");
         Due.is("cut", room.run(0, 2), 10);
         Due.is("where one more would begin", room.number(0), 2);
@@ -585,7 +577,7 @@ public final class ProgrammeTest {
         steps("r0=next shelf 3;", 2);
         steps("r0=next shelf 0+next shelf 1;", 3);
         steps("try{r0=next none;}on 1{}", 2);
-        PostRoom room = room();
+        Room room = room();
         Due.programme(room, "r0=5;r0=next shelf 0;");
         Due.is("cut ahead of next", room.run(0, 2), 10);
         Due.is("nothing is set", room.number(0), 5);
@@ -596,7 +588,7 @@ public final class ProgrammeTest {
         runs("make@0 longs 2001;", 11);
         runs("make@0 longs 999999999*999999999;", 11);
         runs("make@0 longs 1000;make@0 longs 1000;make@0 longs 0;", 0);
-        PostRoom room = runs("make@0 longs 1000;drop@0;make@0 longs 1001;", 11);
+        Room room = runs("make@0 longs 1000;drop@0;make@0 longs 1001;", 11);
         Due.is("nothing is made", room.tray(0, 0), 0);
         Due.is("in the next run there is room", room.run(0, 5), 11);
         room = room();
@@ -612,7 +604,7 @@ public final class ProgrammeTest {
     }
 
     private static void allRuns() {
-        PostRoom room = room();
+        Room room = room();
         Due.programme(room, "while 1{try{refuse 1;}on 9{r0=r0+1;}}");
         Due.is("refusals", room.run(0, 16000), 10);
         Due.is("4,000", room.number(0), 4000);
@@ -621,7 +613,7 @@ public final class ProgrammeTest {
         Due.book(room, "office a 1 1 1;");
         Due.programme(room, "try{r0=1/0;}on 6{}");
         Due.is("of all books", room.run(0, 5), 11);
-        PostRoom other = room();
+        Room other = room();
         Due.programme(other, "while 1{}");
         for (int i = 0; i < 10; i++) {
             Due.is("cut", other.run(0, 20000), 10);
@@ -639,7 +631,7 @@ public final class ProgrammeTest {
     }
 
     private static void wrongInputs() {
-        PostRoom room = room();
+        Room room = room();
         Due.is("no programme", room.run(0, 5), -1);
         Due.programme(room, "r1=r1+1;r0=len@0;");
         Due.is("no office", room.run(-1, 5), -1);

@@ -48,6 +48,11 @@ public final class RunTest {
         }
     }
 
+    /** A programme is fed in 50 calls at most; behind each of two runs 60 questions are asked. */
+    private static final int MOST_SIGNS = 1200;
+    private static final int QUESTIONS = 60;
+    private static final int MOST_CALLS_OF_ONE = 180;
+
     private final Random random;
     private final StringBuilder text = new StringBuilder();
     private long[] r = new long[10];
@@ -70,9 +75,9 @@ public final class RunTest {
         Due.end("RunTest");
     }
 
-    private PostRoom room(int seedItems) {
+    private Room room(int seedItems) {
         Random which = new Random(seedItems);
-        PostRoom room = new PostRoom();
+        Room room = new Room();
         Due.book(room, BOOK);
         String[] to = {"1 s 101", "1 t 202", "1 u 303", "1 v 404"};
         for (int i = 0; i < 8; i++) {
@@ -85,17 +90,17 @@ public final class RunTest {
 
     private void play() {
         int seedItems = random.nextInt(1000);
-        PostRoom room = room(seedItems);
+        Room room = room(seedItems);
         here = random.nextInt(5) == 0 ? 1 : 0;
         look(room, room(seedItems));
-        for (int runs = 0; runs < 3; runs++) {
+        while (room.callsLeft() > MOST_CALLS_OF_ONE) {
             text.setLength(0);
             List<Node> programme = random.nextBoolean() ? rows() : new ArrayList<>();
             programme.addAll(statements(0, 2 + random.nextInt(10)));
             for (Node node : programme) {
                 print(node);
             }
-            if (text.length() > 4000) {
+            if (text.length() > MOST_SIGNS) {
                 continue;
             }
             Due.is("programme " + text, Due.programme(room, text.toString()), 0);
@@ -109,7 +114,7 @@ public final class RunTest {
     }
 
     /** What the programmes may ask for; the twin is sorted, so that its bags tell the first coaches. */
-    private void look(PostRoom room, PostRoom twin) {
+    private void look(Room room, Room twin) {
         int size = room.count(5);
         sorts = new int[size];
         weights = new int[size];
@@ -169,36 +174,44 @@ public final class RunTest {
         }
     }
 
-    private void compare(PostRoom room) {
-        for (int i = 0; i < 10; i++) {
-            Due.is("r" + i + " of " + text, room.number(i), r[i]);
-        }
-        for (int i = 0; i < 4; i++) {
-            Due.is("x" + i + " of " + text, room.held(i), x[i]);
-        }
+    /** Any questions, twice as many of what is sure to be there. */
+    private void compare(Room room) {
         Due.is("steps of " + text, room.count(14), steps);
         Due.is("all steps of " + text, room.count(13), allSteps);
-        for (int t = 0; t < 12; t++) {
-            Row row = trays[t];
-            Due.is("tray of " + text, room.tray(t, 0), row == null ? 0 : row.kind);
-            Due.is("size of " + text, room.tray(t, 1), row == null ? -1 : row.size);
-            int same = t;
-            for (int k = t; k >= 0; k--) {
-                same = trays[k] == row ? k : same;
-            }
-            Due.is("same of " + text, room.tray(t, 2), row == null ? -1 : same);
-            for (int k = 0; row != null && k < row.size; k++) {
-                Due.is("place of " + text, room.place(t, k), told(row, k));
-            }
-        }
-        for (int k = 0; k <= shelf.size(); k++) {
-            Due.is("shelf of " + text, room.shelf(here, k), k < shelf.size() ? shelf.get(k) : -1);
-        }
-        for (int c = 0; c < 5; c++) {
-            for (int k = 0; k <= bags.get(c).size(); k++) {
-                Due.is("bag of " + text, room.bag(c, k), k < bags.get(c).size() ? bags.get(c).get(k) : -1);
+        for (int i = 2; i < QUESTIONS; i++) {
+            int which = random.nextInt(9);
+            int k = random.nextInt(10);
+            int t = random.nextInt(random.nextInt(3) > 0 ? 4 : 12);
+            if (which < 2) {
+                Due.is("r" + k + " of " + text, room.number(k), r[k]);
+            } else if (which < 3) {
+                Due.is("x" + k % 4 + " of " + text, room.held(k % 4), x[k % 4]);
+            } else if (which < 7) {
+                compareTray(room, t);
+            } else if (which < 8) {
+                Due.is("shelf of " + text, room.shelf(here, k), k < shelf.size() ? shelf.get(k) : -1);
+            } else {
+                List<Integer> bag = bags.get(k % 5);
+                int place = random.nextInt(bag.size() + 1);
+                Due.is("bag of " + text, room.bag(k % 5, place), place < bag.size() ? bag.get(place) : -1);
             }
         }
+    }
+
+    private void compareTray(Room room, int t) {
+        Row row = trays[t];
+        int same = t;
+        for (int k = t; k >= 0; k--) {
+            same = trays[k] == row ? k : same;
+        }
+        if (row != null && row.size > 0 && random.nextInt(5) > 1) {
+            int k = random.nextInt(row.size);
+            Due.is("place of " + text, room.place(t, k), told(row, k));
+            return;
+        }
+        int what = random.nextInt(3);
+        int due = row == null ? what == 0 ? 0 : -1 : what == 0 ? row.kind : what == 1 ? row.size : same;
+        Due.is("tray(" + t + ", " + what + ") of " + text, room.tray(t, what), due);
     }
 
     // ---- making programmes ----

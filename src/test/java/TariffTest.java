@@ -12,7 +12,7 @@ public final class TariffTest {
     }
 
     private static void priced(String rules, int weight, int due) {
-        PostRoom room = Due.roomOf("office a 1 0 0;office b 2 0 99;office c 3 0 100;office d 4 999 999;"
+        Room room = Due.roomOf("office a 1 0 0;office b 2 0 99;office c 3 0 100;office d 4 999 999;"
             + "service s letter most 4000 " + rules + ";");
         Due.is("price by " + rules, room.price(0, weight, 0, 2), due);
     }
@@ -48,7 +48,7 @@ public final class TariffTest {
     }
 
     private static void zones() {
-        PostRoom room = Due.roomOf("office a 1 100 100;office b 2 100 199;office c 3 200 100;office d 4 999 999;"
+        Room room = Due.roomOf("office a 1 100 100;office b 2 100 199;office c 3 200 100;office d 4 999 999;"
             + "office e 5 100 100;office f 6 50 51;office g 7 500 499;office h 8 500 500;service s letter most 10 far 1 zone 0 100;"
             + "service t letter most 10 zone 0 1 zone 1 2 zone 2 3 zone 9 10;");
         int[] far = {100, 0, 1, 8, 0, 0, 7, 8};
@@ -61,7 +61,7 @@ public final class TariffTest {
     }
 
     private static void wrongInputs() {
-        PostRoom room = Due.roomOf(Due.BOOK);
+        Room room = Due.roomOf(Due.BOOK);
         Due.is("weight 0", room.price(0, 0, 0, 0), -1);
         Due.is("weight -1", room.price(0, -1, 0, 0), -1);
         Due.is("weight 100", room.price(0, 100, 0, 0), 60);
@@ -92,7 +92,7 @@ public final class TariffTest {
                 text.append(words[rule[0]].replace("P", "" + rule[1]).replace("G", "" + rule[2])
                     .replace("V", "" + rule[3]).replace("Q", "" + rule[1]));
             }
-            PostRoom room = Due.roomOf(text + ";");
+            Room room = Due.roomOf(text + ";");
             for (int k = 0; k < 5; k++) {
                 int weight = 1 + random.nextInt(k < 3 ? 200 : 4000);
                 int to = random.nextInt(2);
