@@ -27,6 +27,7 @@ public final class AddressSentencesTest {
         asNear();
         doorNumbers();
         doorPlaces();
+        findTold();
         findNone();
         findSeveral();
         found();
@@ -433,6 +434,18 @@ public final class AddressSentencesTest {
         walk("from 1 to 999 at 0 0 s", "999", 0, -998);
         walk("from 1 to 999 at 999 999 e", "999", 1997, 999);
         walk("from 1 to 999 at 999 999 n", "999", 999, 1997);
+    }
+
+    private static void findTold() {
+        Due.holds("Promise 4: find", "The TAPE is read as an ADDRESS: the PIECE that is FOUND;");
+        Room room = Due.roomOf("office oak 7 0 0;office fir 8 0 0;street elmgrove in oak from 1 to 9 at 0 0 e walk 0;"
+            + "street elmgrove in fir from 1 to 9 at 0 0 e walk 0;street ashway in fir from 5 to 5 at 0 0 e walk 0;");
+        finds(room, "1 elmgrove oak", 0, 0);
+        finds(room, "1 elmgrove fir", 1, 0);
+        finds(room, "1 Elm Grove, 008 Fir", 1, 1);
+        finds(room, "5 ashway 008", 2, 0);
+        finds(room, "5 ashway 008 fri", 2, 1);
+        misses(room, "6 ashway 008");
     }
 
     private static void findNone() {

@@ -19,6 +19,7 @@ public final class BarSentencesTest {
         howMany();
         wrongInputs();
         notBars();
+        itemRead();
         nothingRead();
         noItem();
         mended();
@@ -262,6 +263,20 @@ public final class BarSentencesTest {
         Due.is("the first sign", Due.read(room, "4" + bars.substring(1)), -3);
         Due.is("as it should be", Due.read(room, bars), 0);
         Due.is("with an unknown one", Due.read(room, "?" + bars.substring(1)), 0);
+    }
+
+    private static void itemRead() {
+        Due.holds("Promise 10: read", "the ITEM that has what is READ;");
+        Room room = three();
+        for (int i = 2; i >= 0; i--) {
+            Due.is("ITEM " + i, Due.read(room, bars(i)), i);
+            Due.is("ITEM " + i + ", mended", Due.read(room, hidden(wrong(bars(i), 3), 0, 32)), i);
+        }
+        Room twins = Due.roomOf(BOOK);
+        for (int i = 0; i < 3; i++) {
+            Due.accept(twins, 0, 5, 0, address(0));
+        }
+        Due.is("all is alike but the number", Due.read(twins, BarsTest.barsOf(BarsTest.rowOf(0, 63, 1, 5))), 1);
     }
 
     private static void nothingRead() {

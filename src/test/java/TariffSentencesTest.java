@@ -193,13 +193,14 @@ public final class TariffSentencesTest {
     }
 
     private static void notTaken() {
-        Due.holds("Promise 6: price", "NONE if the service does not take the weight.");
+        Due.holds("Promise 6: price", "A price; NONE if the service does not take the weight.");
         Room room = Due.roomOf(OFFICES + "service s letter most 100 base 3;");
         int[] weights = {0, -1, 101, Integer.MIN_VALUE, Integer.MAX_VALUE};
         for (int weight : weights) {
             Due.is("weight " + weight, room.price(0, weight, 0, 1), -1);
         }
-        Due.is("a price of 0 is none", Due.roomOf("office a 1 0 0;service s letter most 1;").price(0, 1, 0, 0), 0);
+        Due.is("a price", room.price(0, 100, 0, 1), 3);
+        Due.is("a price of 0 is one", Due.roomOf("office a 1 0 0;service s letter most 1;").price(0, 1, 0, 0), 0);
     }
 
     private static void wrongInputs() {
