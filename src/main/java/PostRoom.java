@@ -1323,7 +1323,7 @@ public final class PostRoom {
         static final int MOST_MOVED = 40;
         static final int MOST_STOPS = 8;
         static final int FARTHEST = 20160;
-        static final int NEVER = Integer.MAX_VALUE;
+        static final int NEVER = 2147483647;
         static final int DOORS = 27000;
         static final int LEAST_DOOR = 27;
         static final int TAKEN_IN = 0;

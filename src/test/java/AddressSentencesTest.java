@@ -108,6 +108,13 @@ public final class AddressSentencesTest {
         misses(room, "1 longst ow");
         Room longest = Due.roomOf("office b 5 0 0;short a avenueavenue;street avenueavenue avenueavenue avenueavenue in b from 1 to 9 at 0 0 e walk 0;");
         finds(longest, "1 a A a b", 0, 0);
+        Room edges = Due.roomOf("office b 5 0 0;short q aaaaaaaaaaaa;short r z99999999999;short s a;short t z9;street aaaaaaaaaaaa in b from 1 to 9 at 0 0 e"
+            + " walk 0;street z99999999999 in b from 1 to 9 at 0 0 e walk 0;street a in b from 1 to 9 at 0 0 e walk 0;street z9 in b from 1 to 9 at 0 0 e"
+            + " walk 0;");
+        finds(edges, "1 q b", 0, 0);
+        finds(edges, "1 r b", 1, 0);
+        finds(edges, "1 s b", 2, 0);
+        finds(edges, "1 t b", 3, 0);
         misses(longest, "1" + " a".repeat(39));
     }
 
@@ -171,7 +178,9 @@ public final class AddressSentencesTest {
         misses(room, "5 elm 7");
         misses(room, "5 elm 0007");
         misses(room, "5 elm 00a");
+        misses(room, "5 elm 0a7");
         misses(room, "5 elm a07");
+        misses(room, "5 elm aaa");
         finds(room, "5 elm 7 oakwood", 0, 2);
         finds(room, "5 elm 07 oakwood", 0, 3);
         misses(room, "5 elm 0007 oakwood");
@@ -198,6 +207,8 @@ public final class AddressSentencesTest {
         finds(room, "20 elm 007 008", 1, 3);
         finds(room, "20 elm 017 oak", 1, 1);
         misses(room, "20 007 elm oak");
+        misses(room, "20 elm oak 007");
+        finds(room, "20 elm oak", 1, 0);
         Room digits = Due.roomOf("office o07 123 0 0;street elm in o07 from 10 to 99 at 0 0 e walk 0;");
         finds(digits, "20 elm 123 007", 0, 1);
         finds(digits, "20 elm 123 o07", 0, 0);

@@ -15,6 +15,7 @@ public final class BarSentencesTest {
         stay();
         unknownSigns();
         asManyAsCanBe();
+        anyTwo();
         tooMany();
         howMany();
         wrongInputs();
@@ -194,6 +195,21 @@ public final class BarSentencesTest {
                     text.setCharAt(3 * i + k, (char) ('0' + (bars(1).charAt(3 * i + k) - '0' ^ sign >> 4 - 2 * k & 3)));
                 }
                 Due.is("sign " + i + " other by " + sign, Due.read(room, text.toString()), 1);
+            }
+        }
+    }
+
+    private static void anyTwo() {
+        Due.holds(TERMS, "with 2 e + u at most 4 (there is one at most), it is READ:");
+        for (int i = 0; i < 11; i++) {
+            Room room = three();
+            for (int j = 0; j < 11; j++) {
+                if (j != i) {
+                    Due.is("signs " + i + " and " + j + " wrong", Due.read(room, wrong(bars(0), i, j)), 0);
+                    Due.is("mended", room.mended(), 2);
+                    Due.is("sign " + i + " wrong, " + j + " unknown", Due.read(room, hidden(wrong(bars(1), i), 3 * j)), 1);
+                    Due.is("mended", room.mended(), 2);
+                }
             }
         }
     }

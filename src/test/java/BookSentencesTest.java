@@ -147,6 +147,17 @@ public final class BookSentencesTest {
         fault(2, TWO + "coach |c d first 1440");
         fault(4, TWO + "street s in a from |0 to 0 at 1000 0 x walk 10;");
         fault(1, "office a 1 0 0 |office a 1 0 0;");
+        fault(1, "office |1 2 3 x");
+        fault(1, "short |1 2");
+        fault(1, "short a |1 2");
+        fault(1, "service |1 2");
+        fault(1, "service a |1 2");
+        fault(1, TWO + "street s |1 2");
+        fault(1, TWO + "street s in a |x y");
+        fault(1, TWO + "street s in a odd |x y");
+        fault(2, TWO + "street s in |x y");
+        fault(1, TWO + "coach a |1 2");
+        fault(1, TWO + "coach a b |1 2");
     }
 
     private static void least() {
@@ -225,6 +236,8 @@ public final class BookSentencesTest {
             + "TRAYS hold nothing, rN, xN, the CLOCK, SEAL and what was told of find(), read() are as at first;");
         Room room = World.make();
         int steps = room.count(13);
+        Due.is("a book of other coaches", Due.book(room, World.BOOK.replace("first 10 ", "first 20 ")), 0);
+        Due.is("a WAY by these", room.way(0, 1), 27);
         Due.is("the same book", Due.book(room, World.BOOK), 0);
         int[] counts = {2, 2, 2, 2, 0, 0, 0, 0, 0, 0, 0, 0, 7, steps, 0, 0, 0, 0};
         for (int i = 0; i < counts.length; i++) {

@@ -172,6 +172,15 @@ public final class CoachSentencesTest {
         Due.is("two are under way", room.count(17), 2);
         room.tick(2);
         Due.is("the last one came", room.item(2, 10), 3003);
+        Room over = withItems(daily("a b", 10, 100) + daily("d b", 20, 5), 1, 1);
+        accept(over, 1, 0, 3, 1);
+        Due.is("both are sorted", over.sort(0) + over.sort(3), 2);
+        over.tick(25);
+        Due.is("what went later comes first", over.shelf(1, 0), 1);
+        over.tick(84);
+        Due.is("the other one is under way", over.item(0, 5), 2);
+        over.tick(1);
+        Due.is("and comes", over.shelf(1, 1), 0);
         Room next = withItems(coach("a b", 5, 1, 5, 1, 1), 1, 1);
         next.sort(0);
         next.tick(5);

@@ -97,6 +97,12 @@ public final class DeliverySentencesTest {
         Room room = roomOf("5 s a", "5a s a", "5z s a", "1 s a", "1 n a");
         Due.is("two places", room.deliver(0, 0), 8);
         Due.is("all five", room.count(9), 5);
+        Due.accept(room, 0, 1, 0, "5 s a");
+        Due.is("the same place in another walk", room.deliver(0, 0), 8);
+        Due.accept(room, 0, 1, 0, "1 s a");
+        Due.accept(room, 0, 1, 0, "5b s a");
+        Due.is("both in another walk", room.deliver(0, 0), 8);
+        Due.is("all eight", room.count(9), 8);
         Room many = roomOf("9 s a", "2 s a", "9a s a", "3 s a", "9b s a", "4 s a", "2a s a", "5 s a", "6 s a", "7 s a", "8 s a", "3a s a", "8a s a");
         Due.is("eight places", many.deliver(0, 0), 16);
         Due.is("all", many.count(9), 13);

@@ -229,7 +229,7 @@ public final class ScriptSentencesTest {
     private static void can() {
         Due.holds(TERMS, "FAULTS as of books: 1;");
         String[] faults = {"|5", "|x", "|else{}", "|on 1{}", "|always{}", "|len@0;", "r0|+1;", "r0=|;", "r0=1|", "r0=(1|;", "r0=1|);", "r0=len |0;",
-            "r0=at@0|;", "r0=at@0[|];", "r0=at@0[1|;", "r0=code |1;", "x0=|many;", "x0=shelf |x0;", "x0=item |0;", "make |0 ints 1;", "drop@0|,",
+            "r0=at@0|;", "r0=at@0[|];", "r0=at@0[1|;", "r0=code |1;", "x0=|many;", "x0=|truths;", "x0=|5;", "r0=1*|+1;", "r0=1/|;", "r0=1+|;", "r0=-|;", "x0=shelf |x0;", "x0=item |0;", "make |0 ints 1;", "drop@0|,",
             "same@0|;", "put@0 |1;", "put@0[1]|;", "lay@0[1]|5;", "slide@0 1|;", "slide@0 1,|1;", "slide@0 1,@0 1|;", "bag x0|;", "bag |0,0;",
             "refuse|;", "stop|", "stop |1;", "if|{}", "if 1|;", "if 1{}else|;", "if 1{}else |if 1{}", "while 1{}|else{}", "try|;", "try{}on|{}",
             "try{}on |r1{}", "try{}on 0|;", "try{}always{}|on 1{}", "try{}always{}|always{}", "try{}always|;", "r0=1;|.", "r0=1;\n\n|!", "r0=|office;"};
@@ -281,6 +281,16 @@ public final class ScriptSentencesTest {
         tells(many(19, "-") + "7", -7);
         tells("is " + many(18, "letter ") + "none", 0);
         tells("code " + many(17, "letter ") + "shelf 0", 202);
+        good("x0=item@" + many(18, "-") + "0[0];");
+        fault(5, "x0=item@" + many(19, "-") + "|0[0];");
+        good("x0=item@0[" + many(18, "-") + "0];");
+        fault(5, "x0=item@0[" + many(19, "-") + "|0];");
+        good("r0=at@0[" + many(18, "-") + "0];");
+        fault(5, "r0=at@0[" + many(19, "-") + "|0];");
+        Room room = runs(many(20, "try{") + "stop;" + many(20, "}") + "r0=1;", 0);
+        Due.is("20 BLOCKS are done", room.count(14), 21);
+        Due.is("and what is behind is not", room.number(0), 0);
+        numbers(runs(many(9, "if 1{while r0<1{") + many(9, "r0=r0+1;}}") + "r1=1;", 0), 9, 1);
     }
 
     private static void depthAtFirst() {
@@ -415,6 +425,9 @@ public final class ScriptSentencesTest {
         steps("try{r0=1/0;r0=1;}on 6{r0=1;}on 0{r0=1;}always{r1=1;}", 4);
         steps("try{refuse 1;}on 9{stop;}", 3);
         steps("stop;r0=1;", 1);
+        steps("while 1{stop;}", 2);
+        steps("try{while 1{r0=1/0;}}on 6{}", 3);
+        steps("try{while 1/0{}}on 6{}", 2);
         steps("if 1{while 0{}}", 2);
         steps("r0=code shelf 0+weight shelf 1+kind shelf 2+is none+many;", 1);
     }

@@ -52,6 +52,11 @@ public final class TariffSentencesTest {
         Room across = Due.roomOf("office a 1 0 999;office b 2 50 900;office c 3 50 950;service s letter most 9 far 1;");
         Due.is("X more, Y less: 149", across.price(0, 1, 0, 1), 1);
         Due.is("X more, Y less: 99", across.price(0, 1, 0, 2), 0);
+        Due.is("X as it is, Y more: 50", across.price(0, 1, 1, 2), 0);
+        Room near = Due.roomOf("office a 1 999 999;office b 2 949 950;office c 3 949 949;service s letter most 9 far 1;");
+        Due.is("great X and Y: 99", near.price(0, 1, 0, 1), 0);
+        Due.is("great X and Y: 100", near.price(0, 1, 0, 2), 1);
+        Due.is("great X and Y: 1", near.price(0, 1, 1, 2), 0);
     }
 
     private static void atFirst() {

@@ -21,6 +21,7 @@ public final class TraySentencesTest {
         sorts();
         atFirst();
         fromTheLeft();
+        refusedStatements();
         len();
         sort();
         at();
@@ -278,6 +279,35 @@ public final class TraySentencesTest {
         refused("while 1/0{}", 6);
         refused("x0=shelf(1/0);", 6);
         refused("x0=item@0[1/0];", 6);
+        String[] zeros = {"x0=shelf(99/0);", "r0=sort@(99/0);", "drop@(99/0);", "make@(99/0)ints 1;", "make@0 ints -99/0;", "make@0 ints 9999/0;",
+            "put@0[99/0]1;", "r0=at@0[99/0];", "x0=item@0[99/0];", "lay@0[99/0]none;", "slide@0 99/0,@0 0,0;", "slide@0 0,@0 0,99/0;", "bag none,99/0;",
+            "same@(99/0)@12;", "same@0@(99/0);", "r0=1%0/0;", "r0=99/0*len@0;", "r0=(99/0)%0;", "r0=code shelf(99/0);", "x0=parcel shelf(99/0);"};
+        for (String statement : zeros) {
+            refused(statement, 6);
+        }
+    }
+
+    private static void refusedStatements() {
+        Due.holds(TERMS, "A REFUSAL ends what is being done,");
+        String before = "make@0 ints 3;put@0[0]4;put@0[1]5;make@1 items 2;lay@1[0]shelf 2;make@2 letters 2;lay@2[0]shelf 0;x0=shelf 1;x1=shelf 3;r1=7;r2=8;";
+        String[] all = {"r1=1/0;", "r1=r2+len@9;", "r1=at@12[0];", "r1=code none;", "x0=shelf 9;", "x0=item@9[0];", "x0=item@12[0];", "x0=parcel x1;",
+            "x0=letter shelf 9;", "make@12 bytes 1;", "make@0 bytes 1/0;", "make@0 bytes -1;", "make@(1/0)bytes 1;", "drop@12;", "drop@-1;", "drop@(1/0);",
+            "same@12@1;", "same@0@12;", "same@0@(1/0);", "same@(1/0)@1;", "same@1@12;", "same@1@(1/0);", "put@12[0]9;", "put@0[1/0]9;", "put@0[0]1/0;", "put@0[3]9;", "put@1[0]9;",
+            "put@(1/0)[0]9;", "lay@12[0]none;", "lay@1[1/0]none;", "lay@1[0]shelf 9;", "lay@1[2]none;", "lay@0[0]none;", "lay@2[0]shelf 2;",
+            "lay@(1/0)[0]none;", "slide@12 0,@0 1,1;", "slide@0 1/0,@0 1,1;", "slide@0 0,@12 1,1;", "slide@0 0,@0 1/0,1;", "slide@0 0,@0 1,1/0;",
+            "slide@0 0,@1 0,1;", "slide@0 0,@0 1,3;", "slide@1 0,@2 0,1;", "bag shelf 9,1;", "bag shelf 0,1/0;", "bag shelf 0,3;", "bag shelf 0,0;",
+            "bag none,1;", "if 1/0{r1=0;}else{r2=0;}", "while 1/0{r1=0;}", "refuse 1/0;", "refuse 5;"};
+        for (String statement : all) {
+            Room room = runs(before + "try{" + statement + "r3=9;}on 0{r9=0;}r4=6;", 0);
+            numbers(room, 0, 7, 8, 0, 6, 0, 0, 0, 0, 0);
+            holds(room, 0, 4, 5, 0);
+            holds(room, 1, 2, -1);
+            holds(room, 2, 0, -1);
+            Due.is("no other TRAY", room.tray(3, 0), 0);
+            Due.is("x0 behind " + statement, room.held(0), 1);
+            Due.is("the SHELF behind " + statement, room.shelf(0, 3), 3);
+            Due.is("a BAG behind " + statement, room.bag(1, 0), -1);
+        }
     }
 
     private static void len() {
@@ -557,6 +587,8 @@ public final class TraySentencesTest {
         holds(runs("make@0 items 3;lay@0[2]shelf 2;make@1 parcels 3;lay@1[0]shelf 2;slide@0 0,@1 0,3;", 0), 1, -1, -1, 2);
         holds(runs("make@0 letters 2;make@1 registers 2;lay@0[0]shelf 1;lay@0[1]shelf 0;slide@0 0,@1 0,2;", 5), 1, 1, -1);
         refused(items + "make@1 letters 4;slide@0 0,@1 0,4;", 5);
+        holds(runs(items + "make@1 letters 4;slide@0 0,@1 0,1;", 0), 1, 0, -1, -1, -1);
+        holds(runs(items + "make@1 letters 4;lay@1[1]shelf 3;slide@0 0,@1 0,1;", 0), 1, 0, 3, -1, -1);
     }
 
     private static void bag() {
@@ -597,6 +629,11 @@ public final class TraySentencesTest {
     private static void trayTold() {
         Due.holds("Promise 21: tray", "Of TRAY t, what 0: its ROW's number, 0 if it holds nothing; 1: how many places; "
             + "2: the least TRAY that holds the same row. NONE for nothing (but what 0), another what.");
+        Room first = runs("make@0 longs 2;same@1@0;make@2 longs 2;same@11@2;same@2@0;", 0);
+        int[] least = {0, 0, 0, -1, -1, -1, -1, -1, -1, -1, -1, 11};
+        for (int t = 0; t < 12; t++) {
+            Due.is("the least TRAY of " + t, first.tray(t, 2), least[t]);
+        }
         Room room = runs("make@3 shorts 4;same@9@3;same@11@9;make@0 items 0;", 0);
         int[][] due = {{9, 0, 0}, {0, -1, -1}, {0, -1, -1}, {4, 4, 3}, {0, -1, -1}, {0, -1, -1}, {0, -1, -1}, {0, -1, -1}, {0, -1, -1}, {4, 4, 3},
             {0, -1, -1}, {4, 4, 3}};
