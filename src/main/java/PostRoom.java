@@ -1537,8 +1537,10 @@ public final class PostRoom {
                     Coach coach = book.coaches.get(i);
                     if (comes[coach.from] <= clock + FARTHEST) {
                         int time = coach.timeBehind(comes[coach.from]) + coach.takes;
-                        isNew |= time < comes[coach.to];
-                        comes[coach.to] = Math.min(comes[coach.to], time);
+                        if (time < comes[coach.to]) {
+                            comes[coach.to] = time;
+                            isNew = true;
+                        }
                     }
                 }
             }
@@ -1878,7 +1880,7 @@ public final class PostRoom {
             return kind == wanted ? push() : fails(WRONG);
         }
 
-        boolean readStatement(int depth) {
+        private boolean readStatement(int depth) {
             int first = kind;
             switch (first) {
                 case REG:
@@ -1921,7 +1923,7 @@ public final class PostRoom {
                 && readExpression(depth) && takes(';');
         }
 
-        boolean readTry(int depth) {
+        private boolean readTry(int depth) {
             if (!readBlock(depth)) {
                 return false;
             }
@@ -1941,7 +1943,7 @@ public final class PostRoom {
         }
 
         /** The opening sign's value is the place of the closing one, for runs that pass the BLOCK by. */
-        boolean readBlock(int depth) {
+        private boolean readBlock(int depth) {
             if (kind != '{') {
                 return fails(WRONG);
             }
@@ -1963,22 +1965,22 @@ public final class PostRoom {
             return kind >= TRUTHS && kind <= REGISTERS ? push() : fails(WRONG);
         }
 
-        boolean readTray(int depth) {
+        private boolean readTray(int depth) {
             return takes('@') && readUnit(depth);
         }
 
-        boolean readSpot(int depth) {
+        private boolean readSpot(int depth) {
             return readTray(depth) && takes('[') && readExpression(depth) && takes(']');
         }
 
-        boolean readExpression(int depth) {
+        private boolean readExpression(int depth) {
             if (!readSum(depth)) {
                 return false;
             }
             return kind != '<' && kind != '=' || push() && readSum(depth);
         }
 
-        boolean readSum(int depth) {
+        private boolean readSum(int depth) {
             if (!readProduct(depth)) {
                 return false;
             }
@@ -1990,7 +1992,7 @@ public final class PostRoom {
             return true;
         }
 
-        boolean readProduct(int depth) {
+        private boolean readProduct(int depth) {
             if (!readUnit(depth)) {
                 return false;
             }
@@ -2006,7 +2008,7 @@ public final class PostRoom {
             return kind == Tape.NUMBER || kind == REG || kind == '(' || kind == '-' || kind >= LEN && kind <= TIME;
         }
 
-        boolean readUnit(int depth) {
+        private boolean readUnit(int depth) {
             if (!beginsUnit()) {
                 return fails(WRONG);
             }
@@ -2031,7 +2033,7 @@ public final class PostRoom {
             }
         }
 
-        boolean readItem(int depth) {
+        private boolean readItem(int depth) {
             if (kind != HAND && (kind < NO_ITEM || kind > REGISTER)) {
                 return fails(WRONG);
             }
@@ -2179,7 +2181,7 @@ public final class PostRoom {
             ended = what;
         }
 
-        void doStatement(int depth) {
+        private void doStatement(int depth) {
             int kind = peek();
             if (kind != Script.WHILE && !begins()) {
                 return;
@@ -2280,7 +2282,7 @@ public final class PostRoom {
         }
 
         /** The number in the brackets behind a TRAY. */
-        long spotTold(int depth) {
+        private long spotTold(int depth) {
             at++;
             long spot = expression(depth);
             at++;
@@ -2446,7 +2448,7 @@ public final class PostRoom {
         }
 
         /** Whatever ends it, the place behind the BLOCK is next: what is done behind a try is found from there. */
-        void doBlock(int depth) {
+        private void doBlock(int depth) {
             int close = script.valueAt(at);
             at++;
             boolean isOpen = !isTooDeep(depth);
@@ -2460,7 +2462,7 @@ public final class PostRoom {
             at = script.valueAt(at) + 1;
         }
 
-        void choose(int depth) {
+        private void choose(int depth) {
             boolean isSo = expression(depth) != 0;
             if (!isGoing()) {
                 return;
@@ -2481,7 +2483,7 @@ public final class PostRoom {
             }
         }
 
-        void repeat(int depth) {
+        private void repeat(int depth) {
             int look = at;
             for (int i = 0; i <= MOST_STEPS; i++) {
                 at = look;
@@ -2503,7 +2505,7 @@ public final class PostRoom {
             }
         }
 
-        void attempt(int depth) {
+        private void attempt(int depth) {
             doBlock(depth);
             int refusal = ended;
             boolean isRefused = refusal >= NOTHING && refusal <= OWN;
@@ -2525,7 +2527,7 @@ public final class PostRoom {
             }
         }
 
-        void doAlways(int depth) {
+        private void doAlways(int depth) {
             int pending = ended;
             long pendingOwn = own;
             ended = GOING;
@@ -2536,7 +2538,7 @@ public final class PostRoom {
             }
         }
 
-        long expression(int depth) {
+        private long expression(int depth) {
             long left = sum(depth);
             int sign = peek();
             if (!isGoing() || sign != '<' && sign != '=') {
@@ -2548,7 +2550,7 @@ public final class PostRoom {
             return isSo ? 1 : 0;
         }
 
-        long sum(int depth) {
+        private long sum(int depth) {
             long total = product(depth);
             for (int i = 0; i < Tape.MOST && isGoing() && (peek() == '+' || peek() == '-'); i++) {
                 boolean isLess = peek() == '-';
@@ -2559,7 +2561,7 @@ public final class PostRoom {
             return total;
         }
 
-        long product(int depth) {
+        private long product(int depth) {
             long total = unit(depth);
             for (int i = 0; i < Tape.MOST && isGoing(); i++) {
                 int sign = peek();
@@ -2578,7 +2580,7 @@ public final class PostRoom {
             return total;
         }
 
-        long unit(int depth) {
+        private long unit(int depth) {
             if (isTooDeep(depth)) {
                 return 0;
             }
@@ -2600,14 +2602,14 @@ public final class PostRoom {
             }
         }
 
-        long inBrackets(int depth) {
+        private long inBrackets(int depth) {
             long told = expression(depth);
             at++;
             return told;
         }
 
         /** A TRAY's number; 0, and refused, if it is none. */
-        int trayTold(int depth) {
+        private int trayTold(int depth) {
             at++;
             long t = unit(depth);
             if (isGoing() && (t < 0 || t >= TRAYS)) {
@@ -2616,7 +2618,7 @@ public final class PostRoom {
             return isGoing() ? (int) t : 0;
         }
 
-        long lengthTold(int depth) {
+        private long lengthTold(int depth) {
             int t = trayTold(depth);
             if (!isGoing()) {
                 return 0;
@@ -2628,17 +2630,17 @@ public final class PostRoom {
             return traySize[t];
         }
 
-        long rowTold(int depth) {
+        private long rowTold(int depth) {
             int t = trayTold(depth);
             return isGoing() ? trayRow[t] : 0;
         }
 
-        long numberTold(int depth) {
+        private long numberTold(int depth) {
             int where = whereTold(depth, false);
             return where == NONE ? 0 : arena[where];
         }
 
-        int whereTold(int depth, boolean ofItems) {
+        private int whereTold(int depth, boolean ofItems) {
             int t = trayTold(depth);
             if (!isGoing()) {
                 return NONE;
@@ -2673,7 +2675,7 @@ public final class PostRoom {
         }
 
         /** An ITEM's number, or NONE; NONE, too, if it is refused. */
-        int itemTold(int depth) {
+        private int itemTold(int depth) {
             if (isTooDeep(depth)) {
                 return NONE;
             }
@@ -2701,7 +2703,7 @@ public final class PostRoom {
             return shelf.get((int) spot).number;
         }
 
-        int inRow(int depth) {
+        private int inRow(int depth) {
             int where = whereTold(depth, true);
             return where == NONE ? NONE : (int) arena[where];
         }
