@@ -23,14 +23,14 @@ public final class FaultsTest {
     public static void main(String[] args) {
         Grammar grammar = new Grammar();
         int[] kinds = new int[12];
-        for (int i = 0; i < 9000; i++) {
+        for (int i = 0; i < 5000; i++) {
             String text = spoilt(new BookMaker().text());
             Room room = new Room();
             int due = new BookNet().fault(text);
             Due.is("fault of book " + text, Due.book(room, text), due);
             kinds[due % 16]++;
         }
-        for (int i = 0; i < 9000; i++) {
+        for (int i = 0; i < 5000; i++) {
             String text = spoilt(i % 3 == 0 ? grammar.deep() : grammar.made("PROGRAMME", 40));
             Room room = new Room();
             int due = grammar.fault(text);

@@ -8,7 +8,7 @@ import java.util.Random;
  */
 public final class MailTest {
     public static void main(String[] args) {
-        for (int seed = 0; seed < 2000; seed++) {
+        for (int seed = 0; seed < 1000; seed++) {
             new MailTest(seed).play();
         }
         Due.end("MailTest");
